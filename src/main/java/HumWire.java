@@ -897,6 +897,7 @@ public final class HumWire {
         // Numbers have at most 4 digits, so what stands above them is free for names and signs.
         static final int NAMES_FROM = 10000;
         static final int SIGNS_FROM = 20000;
+        static final int NOT = SIGNS_FROM + '!';
 
         int key;
         int leaves;
@@ -927,30 +928,21 @@ public final class HumWire {
 
         /** What it gives, with what its key's three names stand for. */
         int gives(int first, int second, int third, int[] stack) {
-            int top = 0;
+            int top = -1;
             for (int i = 0; i < size && i < code.length; i++) {
                 int c = code[i];
-                if (c >= SIGNS_FROM) {
-                    top = joinTop(c - SIGNS_FROM, stack, top);
-                } else if (top < stack.length) {
+                if (c < SIGNS_FROM && top + 1 < stack.length) {
                     int name = c - NAMES_FROM;
-                    stack[top] = name < 0 ? c : name == 0 ? first : name == 1 ? second : third;
                     top++;
+                    stack[top] = name < 0 ? c : name == 0 ? first : name == 1 ? second : third;
+                } else if (c == NOT && top >= 0) {
+                    stack[top] = stack[top] == 0 ? 1 : 0;
+                } else if (top >= 1) {
+                    top--;
+                    stack[top] = joined(c - SIGNS_FROM, stack[top], stack[top + 1]);
                 }
             }
-            return top > 0 ? stack[0] : 0;
-        }
-
-        private static int joinTop(int sign, int[] stack, int top) {
-            if (sign == '!' && top >= 1 && top <= stack.length) {
-                stack[top - 1] = stack[top - 1] == 0 ? 1 : 0;
-                return top;
-            }
-            if (top >= 2 && top <= stack.length) {
-                stack[top - 2] = joined(sign, stack[top - 2], stack[top - 1]);
-                return top - 1;
-            }
-            return top;
+            return top == 0 ? stack[0] : 0;
         }
 
         private static int joined(int sign, int a, int b) {

@@ -51,6 +51,7 @@ public final class RowsTest {
             int[] wrong = good.clone();
             wrong[k]++;
             due.is("wrong at " + k, checked(x, 1, 3, wrong), 1 + k);
+            due.is("right", checked(x, 1, 3, good), 0);
             due.is("missing at " + k, checked(x, 1, 3, java.util.Arrays.copyOf(good, k)), 1 + k);
         }
         due.is("one too many", checked(x, 1, 2, 100, 9, 100, 17, 300), 5);
@@ -107,9 +108,17 @@ public final class RowsTest {
         due.is("back, no IMAGE", x.back(), NO);
         due.is("keep nothing", x.keep(), 0);
         x.wire(3, 2, 100);
+        x.set(0, 3, 1);
+        x.set(0, 4, 900);
+        x.tick(0, 10);
+        due.is("HELD", x.told(0, 5), 1);
+        due.is("TIRED", x.told(0, 6) > 0 ? 1 : 0, 1);
         due.is("back to nothing", x.back(), 0);
         due.is("no such wire", x.told(0, 0), BAD);
-        x.wire(3, 2, 100);
+        due.is("a new one in its place", x.wire(3, 2, 100), 0);
+        for (int what = 3; what < 7; what++) {
+            due.is("is a new one", x.told(0, what), what == 3 ? 2 : 0);
+        }
         x.set(0, 3, 7);
         x.tick(0, 10);
         x.limit(5);
@@ -176,6 +185,7 @@ public final class RowsTest {
         due.is("why", x.why(0), 0);
         due.is("gone", x.textTold(2, 0), BAD);
         due.is("a new one in its place", Due.text(x, "push 21+1"), 2);
+        due.is("with its own NUMBERS", x.textTold(2, 1), 2);
         due.is("why", x.why(1), 2);
         due.is("it gives", x.by(0, 1, 4), 22);
         due.is("a fault", Due.text(x, "band 77+"), -108);

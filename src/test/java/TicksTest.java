@@ -158,6 +158,12 @@ public final class TicksTest {
         due.is("UP lets go by 1", x.line(2, 1), 1);
         due.is("DOWN catches by 0", x.line(2, 2), 0);
         due.is("DOWN does not let go", x.line(2, 3), NONE);
+        // it is HELD now: were it so at first, it would be by 0 too (8 off, twice BAND 8)
+        x.tick(2, 0);
+        x.set(2, 2, 8);
+        due.is("HELD now", x.by(2, 0, 5), 8);
+        due.is("but not at first", x.line(2, 0), NONE);
+        due.is("but not at first", x.line(2, 1), NONE);
         // HELD now does not count, SWING now does
         x.wire(0, 2, 100);
         x.tick(3, 10);
@@ -167,6 +173,11 @@ public final class TicksTest {
         }
         due.is("nothing changes", x.told(3, 4), 400);
         due.is("nothing changes", x.told(3, 5), 1);
+        Due.text(x, "band 15");
+        int[] lines = {9, 14, 11, 6};
+        for (int what = 0; what < 4; what++) {
+            due.is("up and down differ, what " + what, x.line(3, what), lines[what]);
+        }
         due.is("line, no such wire", x.line(4, 0), BAD);
         due.is("line, no such what", x.line(0, 4), BAD);
         due.is("line, no such what", x.line(0, -1), BAD);

@@ -195,10 +195,13 @@ public final class WiresTest {
         }
         due.is("z stays", x.count(7), z);
         due.is("23 stays", x.windAt(23), winds[23]);
+        // of 2: z is below 0, z >>> 8 is 8621261, its rest by 11 is 0
         x.wind(23, 0);
-        x.seed(-54);
-        z = -54 * 1103515245 + 12345;
-        due.is("from 0, the wind of 23 is ahead", x.deal(0, 1), Math.max(0, (z >>> 8) % 11 - 5));
+        x.seed(2);
+        due.is("held at 0", x.deal(0, 1), 0);
+        x.wind(23, 30);
+        x.seed(2);
+        due.is("from 0, the wind of 23 is ahead", x.deal(0, 1), 25);
     }
 
     private static void seed() {
