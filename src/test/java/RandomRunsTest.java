@@ -40,7 +40,11 @@ public final class RandomRunsTest {
     private int step() throws Exception {
         int r = lot.nextInt(100);
         if (r < 12) {
-            return aText();
+            // every other run goes without texts, so that what holds without them is seen long enough
+            return run % 2 == 0 ? aText() : call(pick("tick", "by", "line", "day", "life", "harp", "feed"));
+        }
+        if (r < 14) {
+            return lumpsNear();
         }
         if (r < 16) {
             return hoursTold();
@@ -234,6 +238,18 @@ public final class RandomRunsTest {
         }
         both("check", wire, n);
         return told + 1;
+    }
+
+    /** Asks for lumps about as many as a day with some loss takes. */
+    private int lumpsNear() throws Exception {
+        if (y.world.wires.isEmpty()) {
+            return call("wire");
+        }
+        int wire = lot.nextInt(y.world.wires.size());
+        int tired = y.dayOf(y.world.wires.get(wire).withLoss(lot.nextInt(10)), 1);
+        both("lumps", wire, Math.max(0, tired - lot.nextInt(2)));
+        both("life", wire, tired);
+        return 2;
     }
 
     /** Marks some places of a sheet with the tones or eddies of a wire, and asks who was heard. */
