@@ -1,0 +1,140 @@
+import java.lang.reflect.Method;
+import java.lang.reflect.Modifier;
+import java.util.Arrays;
+import java.util.Map;
+import java.util.Set;
+import java.util.TreeSet;
+import java.util.function.ToIntFunction;
+
+/** What the terms say of every call: each call with odd numbers, on each scene; what is refused changes nothing. */
+final class RefusedEdges {
+    private static final int[] ODD = {Integer.MIN_VALUE, HumWire.NONE, -1, 0, 1, 3, 7, 24, 100000, Integer.MAX_VALUE};
+    private static final int[] FEWER = {Integer.MIN_VALUE, -1, 0, 1, 5, Integer.MAX_VALUE};
+    private static final int[] FEWEST = {-1, 0, 2, 24, Integer.MAX_VALUE};
+    private static final Set<Integer> REFUSALS = Set.of(HumWire.BAD, HumWire.NO, HumWire.FULL, HumWire.NOTHING,
+        HumWire.KIND, HumWire.INDEX, HumWire.SIZE);
+
+    private static final int BAD = HumWire.BAD, NO = HumWire.NO, NONE = HumWire.NONE;
+    private static final int NOTHING = HumWire.NOTHING, KIND = HumWire.KIND, INDEX = HumWire.INDEX;
+
+    private final Edges e;
+    private int refused = 0;
+
+    RefusedEdges(Edges edges) {
+        e = edges;
+    }
+
+    void all() throws Exception {
+        changesNothing();
+        firstOfSeveral();
+        none();
+    }
+
+    private void changesNothing() throws Exception {
+        e.says(Edges.TERMS, "A call that is refused answers one of BAD, NO, FULL, or a FINDING,");
+        e.also(Edges.TERMS, "and changes nothing (but the tape and the numbers that wait, where told).");
+        for (Scene scene : Scene.values()) {
+            for (Method method : HumWire.class.getDeclaredMethods()) {
+                if (Modifier.isPublic(method.getModifiers())) {
+                    every(scene, method, new Object[method.getParameterCount()], 0);
+                }
+            }
+        }
+        e.is("many were refused: " + refused, refused > 5000 ? 1 : 0, 1);
+    }
+
+    private void first(String of, Scene scene, ToIntFunction<HumWire> act, int want) {
+        e.is(of, act.applyAsInt(scene.make()), want);
+    }
+
+    private void firstOfSeveral() {
+        e.says(Edges.TERMS, "of several the one that stands first with it,");
+        first("wire: BAD; FULL", Scene.FULL, x -> x.wire(6, 1, 1), BAD);
+        first("as: BAD; KIND", Scene.BUSY, x -> x.as(5, 1), BAD);
+        first("line: BAD; NONE", Scene.NEW, x -> x.line(0, 1), BAD);
+        first("life: BAD; NONE", Scene.BUSY, x -> x.life(0, 100000), BAD);
+        first("lumps: BAD; NONE", Scene.BUSY, x -> x.lumps(0, -1), BAD);
+        first("blown: BAD; NONE", Scene.BUSY, x -> x.blown(0, -1, 3), BAD);
+        first("heard: BAD; NONE", Scene.NEW, x -> x.heard(4), BAD);
+        first("heard: NOTHING; NONE", Scene.NEW, x -> x.heard(0), NOTHING);
+        first("text: its FAULT; FULL", Scene.FULL, x -> x.trim(95) + x.text(), 95 - 195);
+        first("why: BAD; NONE", Scene.NEW, x -> x.why(3), BAD);
+        first("sheet: BAD; SIZE", Scene.NEW, x -> x.sheet(0, 2, -1), BAD);
+        first("mark: BAD; NOTHING", Scene.NEW, x -> x.mark(4, 0, 0), BAD);
+        first("mark: NOTHING; INDEX", Scene.NEW, x -> x.mark(0, -1, 0), NOTHING);
+        first("mark: INDEX; KIND", Scene.BUSY, x -> x.mark(0, 5, NONE), INDEX);
+        first("mark: INDEX; BAD", Scene.BUSY, x -> x.mark(1, 24, 100000), INDEX);
+        first("reads: BAD; NOTHING", Scene.BUSY, x -> x.reads(3, 5), BAD);
+        first("reads: NOTHING; NONE", Scene.BUSY, x -> x.reads(3, 0), NOTHING);
+        first("copy: BAD; NOTHING", Scene.BUSY, x -> x.copy(3, 0, 4, 0, 0), BAD);
+        first("copy: NOTHING; INDEX", Scene.BUSY, x -> x.copy(0, 9, 3, 0, 0), NOTHING);
+        first("copy: KIND; INDEX", Scene.BUSY, x -> x.copy(0, 9, 1, 0, 0), KIND);
+        first("lay: BAD; NOTHING", Scene.NEW, x -> x.lay(5, 2, 0), BAD);
+        first("ask: BAD; NOTHING", Scene.NEW, x -> x.ask(0, 6), BAD);
+        first("ask: BAD; KIND", Scene.BUSY, x -> x.ask(2, 6), BAD);
+        first("item: NOTHING; INDEX", Scene.NEW, x -> x.item(0, -1), NOTHING);
+        first("item: KIND; INDEX", Scene.BUSY, x -> x.item(0, -1), KIND);
+        first("rest: BAD; NO", Scene.BUSY, x -> x.rest(5, 0), BAD);
+        first("rest: NOTHING; NO", Scene.BUSY, x -> x.rest(3, 0), NOTHING);
+        first("rest: KIND; NO", Scene.BUSY, x -> x.rest(0, 0), KIND);
+        first("check: BAD; NO", Scene.NEW, x -> x.check(0, 0), BAD);
+        first("check: NO; BAD", Scene.NEW, x -> x.check(0, 1), NO);
+    }
+
+    private void none() {
+        e.says(Edges.TERMS, "NONE: there is none.");
+        first("line", Scene.FULL, x -> x.set(0, 1, 9) + x.set(0, 2, 999) + x.line(0, 0), 2 + 100 + NONE);
+        first("life", Scene.BUSY, x -> x.life(0, 99999), NONE);
+        first("lumps", Scene.BUSY, x -> x.lumps(0, 0), NONE);
+        first("blown", Scene.BUSY, x -> x.blown(0, 1, 0), NONE);
+        first("heard", Scene.NEW, x -> x.sheet(0, 0, 0) + x.heard(0), NONE);
+        first("why", Scene.NEW, x -> x.why(0), NONE);
+        first("reads", Scene.BUSY, x -> x.reads(2, 0), NONE);
+    }
+
+    private void every(Scene scene, Method method, Object[] args, int from) throws Exception {
+        if (from == args.length) {
+            one(scene, method, args);
+            return;
+        }
+        for (int v : args.length <= 2 ? ODD : args.length == 3 ? FEWER : FEWEST) {
+            args[from] = v;
+            every(scene, method, args, from + 1);
+        }
+    }
+
+    private void one(Scene scene, Method method, Object[] args) throws Exception {
+        int answer = (Integer) method.invoke(scene.make(), args);
+        boolean none = answer == HumWire.NONE;
+        if (!none && !REFUSALS.contains(answer) || method.getName().equals("seed")) {
+            return;
+        }
+        refused++;
+        Map<String, Integer> before = scene.sight();
+        Map<String, Integer> then = Sight.of(() -> after(scene, method, args));
+        Set<String> changed = new TreeSet<>();
+        for (String name : before.keySet()) {
+            if (!before.get(name).equals(then.get(name)) && !mayChange(method.getName(), name)) {
+                changed.add(name);
+            }
+        }
+        String call = method.getName() + Arrays.toString(args) + " on " + scene + " answers " + answer;
+        e.is(call + " and changes " + changed, changed.size(), 0);
+    }
+
+    private static boolean mayChange(String call, String name) {
+        boolean tape = name.equals("count 6") || name.startsWith("tape ");
+        boolean waiting = name.equals("count 5") || name.equals("waiting");
+        return call.equals("text") && tape || call.equals("check") && waiting;
+    }
+
+    private static HumWire after(Scene scene, Method method, Object[] args) {
+        HumWire x = scene.make();
+        try {
+            method.invoke(x, args);
+        } catch (ReflectiveOperationException thrown) {
+            throw new IllegalStateException(thrown);
+        }
+        return x;
+    }
+}
