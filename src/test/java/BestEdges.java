@@ -66,10 +66,10 @@ final class BestEdges {
         x = one(0, 2, 777, "band 0");
         x.wind(23, 20);
         harps("all but one", x, 100, 23);
-        e.still(Scene.BUSY, "nothing changes", y -> y.harp(4, 0), Scene.BUSY.make().harp(4, 0));
+        e.still(Stage.BUSY, "nothing changes", y -> y.harp(4, 0), Stage.BUSY.make().harp(4, 0));
         // a LEED: EDDY 150 in HOUR 0, 40 in HOUR 23, 50 in the others; BAND 18
-        e.still(Scene.FULL, "nothing changes", y -> y.harp(5, 1), 23);
-        e.still(Scene.FULL, "nothing changes", y -> y.harp(5, 0), 35);
+        e.still(Stage.FULL, "nothing changes", y -> y.harp(5, 1), 23);
+        e.still(Stage.FULL, "nothing changes", y -> y.harp(5, 0), 35);
     }
 
     private void harpOfSeveral() {
@@ -104,8 +104,8 @@ final class BestEdges {
         for (int wire : NO_WIRES) {
             e.stillEverywhere(name + ", wire " + wire, x -> call.on(x, wire), BAD);
         }
-        e.still(Scene.NEW, name + ", no WIRE yet", x -> call.on(x, 0), BAD);
-        e.still(Scene.BUSY, name + ", behind the last", x -> call.on(x, 5), BAD);
+        e.still(Stage.NEW, name + ", no WIRE yet", x -> call.on(x, 0), BAD);
+        e.still(Stage.BUSY, name + ", behind the last", x -> call.on(x, 5), BAD);
     }
 
     private interface OfWire {
@@ -141,8 +141,8 @@ final class BestEdges {
         e.is("its own LOSS does not count", x.lumps(0, 4), 5);
         e.is("LIMIT 20: none is needed", calming(20).lumps(0, 0), 0);
         e.is("the greatest v", calming(0).lumps(0, 99999), 0);
-        e.still(Scene.BUSY, "nothing changes", y -> y.lumps(0, 99999), 0);
-        e.still(Scene.BUSY, "nothing changes", y -> y.lumps(0, 0), NONE);
+        e.still(Stage.BUSY, "nothing changes", y -> y.lumps(0, 99999), 0);
+        e.still(Stage.BUSY, "nothing changes", y -> y.lumps(0, 0), NONE);
     }
 
     private void lumpsGoOn() {
@@ -189,7 +189,7 @@ final class BestEdges {
         x.tick(0, 10);
         e.is("EDDY, not what it would hum", x.blown(0, 105, 2), 0);
         e.is("EDDY, though it is HELD", x.blown(0, 100, 0), 10);
-        e.still(Scene.BUSY, "nothing changes", y -> y.blown(4, 100, 1), 11);
+        e.still(Stage.BUSY, "nothing changes", y -> y.blown(4, 100, 1), 11);
     }
 
     private void blownNone() {
@@ -208,8 +208,8 @@ final class BestEdges {
         for (int what : new int[] {-1, 3, MIN, MAX}) {
             e.stillEverywhere("what " + what, x -> x.blown(0, 0, what), BAD);
         }
-        e.still(Scene.BUSY, "BAD ahead of NONE: no such WIRE", x -> x.blown(5, -1, 0), BAD);
-        e.still(Scene.BUSY, "BAD ahead of NONE: no such what", x -> x.blown(0, -1, 3), BAD);
+        e.still(Stage.BUSY, "BAD ahead of NONE: no such WIRE", x -> x.blown(5, -1, 0), BAD);
+        e.still(Stage.BUSY, "BAD ahead of NONE: no such what", x -> x.blown(0, -1, 3), BAD);
     }
 
     /** Six wires that are HELD by 10, with OWN 100 to 105, and a sheet. */
@@ -239,7 +239,7 @@ final class BestEdges {
         x.mark(3, 1, 103);
         x.mark(3, 2, 104);
         e.is("two of three", x.heard(3), 4);
-        e.still(Scene.BUSY, "nothing changes", y -> y.heard(1), Scene.BUSY.make().heard(1));
+        e.still(Stage.BUSY, "nothing changes", y -> y.heard(1), Stage.BUSY.make().heard(1));
     }
 
     private void heardOfSeveral() {
@@ -294,9 +294,9 @@ final class BestEdges {
         e.says(21, "NOTHING;");
         for (int sheet = 0; sheet < 4; sheet++) {
             int asked = sheet;
-            e.still(Scene.NEW, "MISSING, ahead of no WIRES", x -> x.heard(asked), NOTHING);
+            e.still(Stage.NEW, "MISSING, ahead of no WIRES", x -> x.heard(asked), NOTHING);
         }
-        e.still(Scene.BUSY, "MISSING", x -> x.heard(3), NOTHING);
+        e.still(Stage.BUSY, "MISSING", x -> x.heard(3), NOTHING);
         e.says(21, "NONE: there are no WIRES.");
         HumWire x = new HumWire();
         x.sheet(3, 1, 24);

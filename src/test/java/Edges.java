@@ -44,35 +44,35 @@ final class Edges {
         due.is(sentence + call, got, want);
     }
 
-    /** A call on a scene answers so, and nothing that can be seen is otherwise then. */
-    void still(Scene scene, String call, ToIntFunction<HumWire> act, int want) {
-        changes(scene, call, act, want, new String[0]);
+    /** A call on a stage answers so, and nothing that can be seen is otherwise then. */
+    void still(Stage stage, String call, ToIntFunction<HumWire> act, int want) {
+        changes(stage, call, act, want, new String[0]);
     }
 
-    /** The same on each scene. */
+    /** The same on each stage. */
     void stillEverywhere(String call, ToIntFunction<HumWire> act, int want) {
-        for (Scene scene : Scene.values()) {
-            still(scene, call, act, want);
+        for (Stage stage : Stage.values()) {
+            still(stage, call, act, want);
         }
     }
 
-    /** A call on a scene answers so, and just these names are seen otherwise then; what follows by laws is left out. */
-    void changes(Scene scene, String call, ToIntFunction<HumWire> act, int want, String... names) {
-        is(call + " on " + scene, act.applyAsInt(scene.make()), want);
+    /** A call on a stage answers so, and just these names are seen otherwise then; what follows by laws is left out. */
+    void changes(Stage stage, String call, ToIntFunction<HumWire> act, int want, String... names) {
+        is(call + " on " + stage, act.applyAsInt(stage.make()), want);
         Map<String, Integer> then = Sight.of(() -> {
-            HumWire x = scene.make();
+            HumWire x = stage.make();
             act.applyAsInt(x);
             return x;
         });
         Set<String> otherwise = new TreeSet<>();
-        for (Map.Entry<String, Integer> one : scene.sight().entrySet()) {
+        for (Map.Entry<String, Integer> one : stage.sight().entrySet()) {
             boolean counts = names.length == 0 || !one.getKey().startsWith("law ");
             if (counts && !one.getValue().equals(then.get(one.getKey()))) {
                 otherwise.add(one.getKey());
             }
         }
         Set<String> wanted = new TreeSet<>(Arrays.asList(names));
-        is(call + " on " + scene + " changes " + otherwise + ", due is " + wanted, otherwise.equals(wanted) ? 1 : 0, 1);
+        is(call + " on " + stage + " changes " + otherwise + ", due is " + wanted, otherwise.equals(wanted) ? 1 : 0, 1);
     }
 
     void end() throws Exception {

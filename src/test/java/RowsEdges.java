@@ -42,7 +42,7 @@ final class RowsEdges {
             e.is("tell " + v, x.tell(v), many);
             e.is("how many", x.count(5), many);
         }
-        e.changes(Scene.BUSY, "the seventh", y -> y.tell(5), 7, "count 5", "waiting");
+        e.changes(Stage.BUSY, "the seventh", y -> y.tell(5), 7, "count 5", "waiting");
     }
 
     private void tellFull() {
@@ -53,7 +53,7 @@ final class RowsEdges {
         }
         e.is("the 61st", x.tell(61), FULL);
         e.is("60 wait", x.count(5), 60);
-        e.still(Scene.FULL, "the 61st", y -> y.tell(0), FULL);
+        e.still(Stage.FULL, "the 61st", y -> y.tell(0), FULL);
         x.check(0, 1);
         e.is("none wait: the first again", x.tell(1), 1);
     }
@@ -84,8 +84,8 @@ final class RowsEdges {
         e.is("two HOURS", checked(x, 1, 2, 100, 9, 100, 17), 0);
         e.is("three HOURS", checked(x, 1, 3, 100, 9, 100, 17, 300, 15), 0);
         e.is("another WIRE", checked(x, 0, 3, 100, 0, 100, 0, 300, 26), 0);
-        e.changes(Scene.BUSY, "three HOURS", y -> y.check(0, 3), 0, "count 5", "waiting");
-        e.changes(Scene.FULL, "30 HOURS", y -> y.check(0, 30), 0, "count 5", "waiting");
+        e.changes(Stage.BUSY, "three HOURS", y -> y.check(0, 3), 0, "count 5", "waiting");
+        e.changes(Stage.FULL, "30 HOURS", y -> y.check(0, 30), 0, "count 5", "waiting");
     }
 
     private void checkOneByOne() {
@@ -202,19 +202,19 @@ final class RowsEdges {
     private void checkRefused() {
         e.says(37, "BAD: n;");
         for (int n : new int[] {0, 31, -1, MIN, MAX}) {
-            e.still(Scene.NEW, "ahead of NO, n " + n, x -> x.check(0, n), BAD);
-            e.changes(Scene.BUSY, "n " + n, x -> x.check(0, n), BAD, "count 5", "waiting");
-            e.changes(Scene.FULL, "n " + n, x -> x.check(0, n), BAD, "count 5", "waiting");
+            e.still(Stage.NEW, "ahead of NO, n " + n, x -> x.check(0, n), BAD);
+            e.changes(Stage.BUSY, "n " + n, x -> x.check(0, n), BAD, "count 5", "waiting");
+            e.changes(Stage.FULL, "n " + n, x -> x.check(0, n), BAD, "count 5", "waiting");
         }
         e.says(37, "NO: there is no IMAGE;");
-        e.still(Scene.NEW, "ahead of no such WIRE", x -> x.check(0, 1), NO);
-        e.still(Scene.NEW, "ahead of no such WIRE", x -> x.check(MIN, 30), NO);
+        e.still(Stage.NEW, "ahead of no such WIRE", x -> x.check(0, 1), NO);
+        e.still(Stage.NEW, "ahead of no such WIRE", x -> x.check(MIN, 30), NO);
         HumWire x = new HumWire();
         x.wire(0, 1, 1);
         e.is("a WIRE, but no IMAGE", x.check(0, 1), NO);
         e.says(37, "BAD: no such WIRE in it.");
         for (int wire : new int[] {-1, 5, 6, MIN, MAX}) {
-            e.changes(Scene.BUSY, "wire " + wire, y -> y.check(wire, 1), BAD, "count 5", "waiting");
+            e.changes(Stage.BUSY, "wire " + wire, y -> y.check(wire, 1), BAD, "count 5", "waiting");
         }
         x.keep();
         x.wire(0, 1, 1);
@@ -231,22 +231,22 @@ final class RowsEdges {
         e.says(38, "AN IMAGE is kept: how many WIRES.");
         e.also(TERMS, "AN IMAGE keeps all but SHEETS, SLOTS, numbers that wait, THE TAPE;");
         e.is("none", new HumWire().keep(), 0);
-        e.is("five", Scene.BUSY.make().keep(), 5);
-        e.is("six", Scene.FULL.make().keep(), 6);
-        for (Scene scene : Scene.values()) {
-            Map<String, Integer> before = scene.sight();
+        e.is("five", Stage.BUSY.make().keep(), 5);
+        e.is("six", Stage.FULL.make().keep(), 6);
+        for (Stage stage : Stage.values()) {
+            Map<String, Integer> before = stage.sight();
             Map<String, Integer> then = Sight.of(() -> {
-                HumWire x = scene.make();
+                HumWire x = stage.make();
                 x.keep();
                 return x;
             });
             for (String name : before.keySet()) {
                 boolean ofImage = name.startsWith("image") || name.startsWith("law image") || name.equals("waiting");
                 if (!ofImage) {
-                    e.is("now stays on " + scene + ": " + name, then.get(name), before.get(name));
+                    e.is("now stays on " + stage + ": " + name, then.get(name), before.get(name));
                 }
                 if (then.containsKey("image " + name)) {
-                    e.is("it is as now on " + scene + ": " + name, then.get("image " + name), before.get(name));
+                    e.is("it is as now on " + stage + ": " + name, then.get("image " + name), before.get(name));
                 }
             }
         }
@@ -266,23 +266,23 @@ final class RowsEdges {
 
     private void back() {
         e.says(39, "All is as THE IMAGE: how many WIRES.");
-        for (Scene scene : new Scene[] {Scene.BUSY, Scene.FULL}) {
-            Map<String, Integer> before = scene.sight();
-            e.is("how many on " + scene, scene.make().back(), before.get("image count 0"));
+        for (Stage stage : new Stage[] {Stage.BUSY, Stage.FULL}) {
+            Map<String, Integer> before = stage.sight();
+            e.is("how many on " + stage, stage.make().back(), before.get("image count 0"));
             Map<String, Integer> then = Sight.of(() -> {
-                HumWire x = scene.make();
+                HumWire x = stage.make();
                 x.back();
                 return x;
             });
             for (String name : before.keySet()) {
                 if (before.containsKey("image " + name)) {
-                    e.is("on " + scene + ": " + name, then.get(name), before.get("image " + name));
+                    e.is("on " + stage + ": " + name, then.get(name), before.get("image " + name));
                 } else if (!name.startsWith("law ") && !name.startsWith("tape ")) {
-                    e.is("stays on " + scene + ": " + name, then.get(name), before.get(name));
+                    e.is("stays on " + stage + ": " + name, then.get(name), before.get(name));
                 }
             }
         }
-        HumWire x = Scene.BUSY.make();
+        HumWire x = Stage.BUSY.make();
         x.back();
         e.is("THE TAPE stays", x.text(), 3);
         e.is("it is as it was", x.by(0, 10, 4), 173);
@@ -310,7 +310,7 @@ final class RowsEdges {
 
     private void backRefused() {
         e.says(39, "NO: there is none.");
-        e.still(Scene.NEW, "none", HumWire::back, NO);
+        e.still(Stage.NEW, "none", HumWire::back, NO);
         HumWire x = new HumWire();
         x.wire(0, 1, 1);
         e.is("none", x.back(), NO);
@@ -354,16 +354,16 @@ final class RowsEdges {
         int heldBusy = 0;
         int heldFull = 0;
         for (int wire = 0; wire < 6; wire++) {
-            heldBusy += wire < 5 ? Scene.BUSY.make().told(wire, 5) : 0;
-            heldFull += Scene.FULL.make().told(wire, 5);
+            heldBusy += wire < 5 ? Stage.BUSY.make().told(wire, 5) : 0;
+            heldFull += Stage.FULL.make().told(wire, 5);
         }
         busy[1] = heldBusy;
         full[1] = heldFull;
         for (int what = 0; what < 8; what++) {
             int asked = what;
-            e.still(Scene.NEW, "what " + what, x -> x.count(asked), none[what]);
-            e.still(Scene.BUSY, "what " + what, x -> x.count(asked), busy[what]);
-            e.still(Scene.FULL, "what " + what, x -> x.count(asked), full[what]);
+            e.still(Stage.NEW, "what " + what, x -> x.count(asked), none[what]);
+            e.still(Stage.BUSY, "what " + what, x -> x.count(asked), busy[what]);
+            e.still(Stage.FULL, "what " + what, x -> x.count(asked), full[what]);
         }
         HumWire x = new HumWire();
         for (int wire = 0; wire < 6; wire++) {

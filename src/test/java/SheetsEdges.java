@@ -86,30 +86,30 @@ final class SheetsEdges {
         for (int sheet = 0; sheet < 4; sheet++) {
             for (int sort = SHORTS; sort <= FLOATS; sort++) {
                 for (int n : new int[] {0, 1, 24}) {
-                    HumWire x = Scene.FULL.make();
+                    HumWire x = Stage.FULL.make();
                     e.is("SHEET " + sheet + ", sort " + sort + ", n " + n, x.sheet(sheet, sort, n), n);
                     rowIs("SHEET " + sheet + ", sort " + sort, x, sheet, new int[n]);
                     e.is("sort " + sort, x.mark(sheet, 0, NONE), n == 0 ? INDEX : sort == FLOATS ? 1 : KIND);
                 }
             }
         }
-        e.changes(Scene.BUSY, "no places for MISSING", x -> x.sheet(3, SHORTS, 0), 0,
+        e.changes(Stage.BUSY, "no places for MISSING", x -> x.sheet(3, SHORTS, 0), 0,
             names("sheet 3 item ", 25, "sheet 3", "sheet 3 sort"));
-        e.changes(Scene.FULL, "anew", x -> x.sheet(3, FLOATS, 24), 24, "sheet 3 item 23");
-        e.changes(Scene.FULL, "another sort", x -> x.sheet(3, SHORTS, 24), 24, "sheet 3 item 23", "sheet 3 sort");
+        e.changes(Stage.FULL, "anew", x -> x.sheet(3, FLOATS, 24), 24, "sheet 3 item 23");
+        e.changes(Stage.FULL, "another sort", x -> x.sheet(3, SHORTS, 24), 24, "sheet 3 item 23", "sheet 3 sort");
     }
 
     private void sheetMissing() {
         e.says(27, "(sort -1: MISSING, n any)");
         e.also(TERMS, "or MISSING (at first).");
         for (int n : new int[] {0, -1, 24, 25, MIN, MAX}) {
-            HumWire x = Scene.FULL.make();
+            HumWire x = Stage.FULL.make();
             e.is("n " + n, x.sheet(2, -1, n), 0);
             e.is("it is MISSING", x.pour(2), NOTHING);
             e.is("the next is not", x.pour(3) == NOTHING ? 1 : 0, 0);
-            e.still(Scene.NEW, "MISSING already, n " + n, y -> y.sheet(2, -1, n), 0);
+            e.still(Stage.NEW, "MISSING already, n " + n, y -> y.sheet(2, -1, n), 0);
         }
-        e.changes(Scene.FULL, "MISSING", x -> x.sheet(3, -1, 9), 0, names("sheet 3 item ", 25, "sheet 3", "sheet 3 sort"));
+        e.changes(Stage.FULL, "MISSING", x -> x.sheet(3, -1, 9), 0, names("sheet 3 item ", 25, "sheet 3", "sheet 3 sort"));
     }
 
     private void sheetRefused() {
@@ -137,10 +137,10 @@ final class SheetsEdges {
     private void mark() {
         e.says(28, "A place of a SHEET becomes v");
         e.also(28, ": 1.");
-        e.changes(Scene.FULL, "the first place", x -> x.mark(0, 0, 7), 1, "sheet 0 item 0");
-        e.changes(Scene.FULL, "the last place", x -> x.mark(3, 23, 7), 1, "sheet 3 item 23");
-        e.still(Scene.FULL, "what it is", x -> x.mark(3, 23, 503), 1);
-        e.changes(Scene.BUSY, "the last of five", x -> x.mark(0, 4, 0), 1, "sheet 0 item 4");
+        e.changes(Stage.FULL, "the first place", x -> x.mark(0, 0, 7), 1, "sheet 0 item 0");
+        e.changes(Stage.FULL, "the last place", x -> x.mark(3, 23, 7), 1, "sheet 3 item 23");
+        e.still(Stage.FULL, "what it is", x -> x.mark(3, 23, 503), 1);
+        e.changes(Stage.BUSY, "the last of five", x -> x.mark(0, 4, 0), 1, "sheet 0 item 4");
     }
 
     private void markShorts() {
@@ -177,24 +177,24 @@ final class SheetsEdges {
             e.stillEverywhere("sheet " + sheet, x -> x.mark(sheet, 0, 1), BAD);
         }
         e.says(28, "NOTHING;");
-        e.still(Scene.NEW, "MISSING", x -> x.mark(0, 0, 1), NOTHING);
-        e.still(Scene.BUSY, "MISSING, ahead of INDEX", x -> x.mark(3, -1, 1), NOTHING);
-        e.still(Scene.BUSY, "MISSING, ahead of the second BAD", x -> x.mark(3, 0, 100000), NOTHING);
-        e.still(Scene.BUSY, "MISSING, ahead of KIND", x -> x.mark(3, 0, NONE), NOTHING);
+        e.still(Stage.NEW, "MISSING", x -> x.mark(0, 0, 1), NOTHING);
+        e.still(Stage.BUSY, "MISSING, ahead of INDEX", x -> x.mark(3, -1, 1), NOTHING);
+        e.still(Stage.BUSY, "MISSING, ahead of the second BAD", x -> x.mark(3, 0, 100000), NOTHING);
+        e.still(Stage.BUSY, "MISSING, ahead of KIND", x -> x.mark(3, 0, NONE), NOTHING);
         e.says(28, "INDEX;");
         for (int place : new int[] {-1, 5, 24, MIN, MAX}) {
-            e.still(Scene.BUSY, "place " + place, x -> x.mark(0, place, 1), INDEX);
-            e.still(Scene.BUSY, "INDEX ahead of KIND, place " + place, x -> x.mark(0, place, NONE), INDEX);
+            e.still(Stage.BUSY, "place " + place, x -> x.mark(0, place, 1), INDEX);
+            e.still(Stage.BUSY, "INDEX ahead of KIND, place " + place, x -> x.mark(0, place, NONE), INDEX);
         }
-        e.still(Scene.BUSY, "no places", x -> x.mark(2, 0, 1), INDEX);
-        e.still(Scene.BUSY, "behind 24", x -> x.mark(1, 24, 1), INDEX);
-        e.still(Scene.BUSY, "INDEX ahead of the second BAD", x -> x.mark(1, 24, 100000), INDEX);
+        e.still(Stage.BUSY, "no places", x -> x.mark(2, 0, 1), INDEX);
+        e.still(Stage.BUSY, "behind 24", x -> x.mark(1, 24, 1), INDEX);
+        e.still(Stage.BUSY, "INDEX ahead of the second BAD", x -> x.mark(1, 24, 100000), INDEX);
         e.says(28, "KIND: NONE in a row of shorts;");
-        e.still(Scene.BUSY, "NONE", x -> x.mark(0, 0, NONE), KIND);
-        e.still(Scene.FULL, "NONE", x -> x.mark(2, 23, NONE), KIND);
+        e.still(Stage.BUSY, "NONE", x -> x.mark(0, 0, NONE), KIND);
+        e.still(Stage.FULL, "NONE", x -> x.mark(2, 23, NONE), KIND);
         e.says(28, "BAD: v of floats.");
         for (int v : new int[] {100000, -100000, MIN, MAX, BAD, NO, FULL, NONE - 1, NONE + 1}) {
-            e.still(Scene.BUSY, "v " + v, x -> x.mark(1, 0, v), BAD);
+            e.still(Stage.BUSY, "v " + v, x -> x.mark(1, 0, v), BAD);
         }
     }
 
@@ -215,7 +215,7 @@ final class SheetsEdges {
         x.mark(0, 23, 99);
         e.is("one is otherwise", x.pour(0), 1);
         e.is("the last", x.windAt(23), 99);
-        e.changes(Scene.FULL, "24 places", y -> y.pour(3), 24, names("windAt ", 24));
+        e.changes(Stage.FULL, "24 places", y -> y.pour(3), 24, names("windAt ", 24));
     }
 
     private void pourHeldWithin() {
@@ -244,7 +244,7 @@ final class SheetsEdges {
             e.is("WIND of " + hour, x.windAt(hour), winds[hour]);
         }
         e.is("beyond, the last", x.windAt(23), 10);
-        e.still(Scene.BUSY, "no places", y -> y.pour(2), 0);
+        e.still(Stage.BUSY, "no places", y -> y.pour(2), 0);
         e.is("23 places", row(SHORTS, new int[23]).pour(0), 23);
     }
 
@@ -254,8 +254,8 @@ final class SheetsEdges {
             e.stillEverywhere("sheet " + sheet, x -> x.pour(sheet), BAD);
         }
         e.says(29, "NOTHING.");
-        e.still(Scene.NEW, "MISSING", x -> x.pour(0), NOTHING);
-        e.still(Scene.BUSY, "MISSING", x -> x.pour(3), NOTHING);
+        e.still(Stage.NEW, "MISSING", x -> x.pour(0), NOTHING);
+        e.still(Stage.BUSY, "MISSING", x -> x.pour(3), NOTHING);
     }
 
     private void reads() {
@@ -278,14 +278,14 @@ final class SheetsEdges {
         x.mark(0, 3, NONE);
         e.says(30, "NONE: there is none.");
         e.is("all of them", x.reads(0, 0), NONE);
-        e.still(Scene.BUSY, "no places", y -> y.reads(2, 0), NONE);
+        e.still(Stage.BUSY, "no places", y -> y.reads(2, 0), NONE);
         x = row(FLOATS, NONE);
         x.wire(0, 2, 100);
         e.is("no numbers", x.reads(0, 0), NONE);
         x = row(FLOATS, 66, 66);
         x.wire(0, 3, 66);
         e.is("EDDY, not what it hums", x.reads(0, 0), NONE);
-        e.still(Scene.BUSY, "nothing changes", y -> y.reads(0, 4), 0);
+        e.still(Stage.BUSY, "nothing changes", y -> y.reads(0, 4), 0);
     }
 
     private void readsRefused() {
@@ -296,10 +296,10 @@ final class SheetsEdges {
         for (int wire : new int[] {-1, 6, MIN, MAX}) {
             e.stillEverywhere("wire " + wire, x -> x.reads(0, wire), BAD);
         }
-        e.still(Scene.NEW, "no WIRE yet, ahead of MISSING", x -> x.reads(0, 0), BAD);
-        e.still(Scene.BUSY, "behind the last WIRE, ahead of MISSING", x -> x.reads(3, 5), BAD);
+        e.still(Stage.NEW, "no WIRE yet, ahead of MISSING", x -> x.reads(0, 0), BAD);
+        e.still(Stage.BUSY, "behind the last WIRE, ahead of MISSING", x -> x.reads(3, 5), BAD);
         e.says(30, "NOTHING;");
-        e.still(Scene.BUSY, "MISSING", x -> x.reads(3, 4), NOTHING);
+        e.still(Stage.BUSY, "MISSING", x -> x.reads(3, 4), NOTHING);
     }
 
     private void copy() {
@@ -322,12 +322,12 @@ final class SheetsEdges {
         x.sheet(1, FLOATS, 2);
         e.is("NO NUMBER", x.copy(0, 0, 1, 0, 2), 2);
         rowIs("NO NUMBER", x, 1, KIND, 5);
-        x = Scene.FULL.make();
+        x = Stage.FULL.make();
         e.is("24 places", x.copy(1, 0, 3, 0, 24), 24);
         e.is("the last of them", at(x, 3, 23), 501);
-        e.changes(Scene.FULL, "24 places", y -> y.copy(1, 0, 3, 0, 24), 24, "sheet 3 item 23");
-        e.still(Scene.BUSY, "none of no places", y -> y.copy(2, 0, 2, 0, 0), 0);
-        e.still(Scene.BUSY, "none to no places", y -> y.copy(1, 24, 2, 0, 0), 0);
+        e.changes(Stage.FULL, "24 places", y -> y.copy(1, 0, 3, 0, 24), 24, "sheet 3 item 23");
+        e.still(Stage.BUSY, "none of no places", y -> y.copy(2, 0, 2, 0, 0), 0);
+        e.still(Stage.BUSY, "none to no places", y -> y.copy(1, 24, 2, 0, 0), 0);
     }
 
     private void copyTheSame() {
@@ -338,7 +338,7 @@ final class SheetsEdges {
         x = row(FLOATS, 1, 2, 3, 4, 5);
         e.is("down", x.copy(0, 1, 0, 0, 4), 4);
         rowIs("down", x, 0, 2, 3, 4, 5, 5);
-        e.still(Scene.FULL, "where they are", y -> y.copy(3, 0, 3, 0, 24), 24);
+        e.still(Stage.FULL, "where they are", y -> y.copy(3, 0, 3, 0, 24), 24);
     }
 
     private void copyRefused() {
@@ -347,20 +347,20 @@ final class SheetsEdges {
             e.stillEverywhere("from " + sheet, x -> x.copy(sheet, 0, 0, 0, 1), BAD);
             e.stillEverywhere("to " + sheet, x -> x.copy(0, 0, sheet, 0, 1), BAD);
         }
-        e.still(Scene.BUSY, "BAD ahead of NOTHING", x -> x.copy(3, 0, 4, 0, 1), BAD);
-        e.still(Scene.BUSY, "BAD ahead of NOTHING", x -> x.copy(-1, 0, 3, 0, 1), BAD);
-        e.still(Scene.BUSY, "BAD ahead of INDEX", x -> x.copy(4, -1, 0, -1, -1), BAD);
+        e.still(Stage.BUSY, "BAD ahead of NOTHING", x -> x.copy(3, 0, 4, 0, 1), BAD);
+        e.still(Stage.BUSY, "BAD ahead of NOTHING", x -> x.copy(-1, 0, 3, 0, 1), BAD);
+        e.still(Stage.BUSY, "BAD ahead of INDEX", x -> x.copy(4, -1, 0, -1, -1), BAD);
         e.says(31, "NOTHING;");
-        e.still(Scene.NEW, "both MISSING", x -> x.copy(0, 0, 1, 0, 1), NOTHING);
-        e.still(Scene.BUSY, "from MISSING", x -> x.copy(3, 0, 0, 0, 1), NOTHING);
-        e.still(Scene.BUSY, "to MISSING", x -> x.copy(0, 0, 3, 0, 1), NOTHING);
-        e.still(Scene.BUSY, "NOTHING ahead of INDEX", x -> x.copy(0, -1, 3, 0, 1), NOTHING);
-        e.still(Scene.BUSY, "NOTHING, though none come", x -> x.copy(3, 0, 3, 0, 0), NOTHING);
+        e.still(Stage.NEW, "both MISSING", x -> x.copy(0, 0, 1, 0, 1), NOTHING);
+        e.still(Stage.BUSY, "from MISSING", x -> x.copy(3, 0, 0, 0, 1), NOTHING);
+        e.still(Stage.BUSY, "to MISSING", x -> x.copy(0, 0, 3, 0, 1), NOTHING);
+        e.still(Stage.BUSY, "NOTHING ahead of INDEX", x -> x.copy(0, -1, 3, 0, 1), NOTHING);
+        e.still(Stage.BUSY, "NOTHING, though none come", x -> x.copy(3, 0, 3, 0, 0), NOTHING);
         e.says(31, "KIND: they are not of one sort;");
-        e.still(Scene.BUSY, "shorts to floats", x -> x.copy(0, 0, 1, 0, 1), KIND);
-        e.still(Scene.BUSY, "floats to shorts", x -> x.copy(1, 0, 0, 0, 1), KIND);
-        e.still(Scene.BUSY, "KIND ahead of INDEX", x -> x.copy(0, 5, 1, -1, -1), KIND);
-        e.still(Scene.BUSY, "KIND, though none come", x -> x.copy(0, 0, 2, 0, 0), KIND);
+        e.still(Stage.BUSY, "shorts to floats", x -> x.copy(0, 0, 1, 0, 1), KIND);
+        e.still(Stage.BUSY, "floats to shorts", x -> x.copy(1, 0, 0, 0, 1), KIND);
+        e.still(Stage.BUSY, "KIND ahead of INDEX", x -> x.copy(0, 5, 1, -1, -1), KIND);
+        e.still(Stage.BUSY, "KIND, though none come", x -> x.copy(0, 0, 2, 0, 0), KIND);
     }
 
     private void copyBeyond() {
@@ -370,11 +370,11 @@ final class SheetsEdges {
             {0, MAX, 1}, {0, 0, 6}, {1, 0, 5}, {0, 1, 5}, {4, 0, 2}, {0, 4, 2}, {0, 0, -1}, {0, 0, MIN}, {0, 0, MAX},
             {1, 0, MAX}, {0, 1, MAX}, {MAX, MAX, MAX}, {-1, -1, 0}, {1, 1, -1}};
         for (int[] b : beyond) {
-            e.still(Scene.BUSY, Arrays.toString(b), x -> x.copy(0, b[0], 0, b[1], b[2]), INDEX);
+            e.still(Stage.BUSY, Arrays.toString(b), x -> x.copy(0, b[0], 0, b[1], b[2]), INDEX);
         }
-        e.still(Scene.BUSY, "from no places", x -> x.copy(2, 0, 1, 0, 1), INDEX);
-        e.still(Scene.BUSY, "to no places", x -> x.copy(1, 0, 2, 0, 1), INDEX);
-        e.still(Scene.FULL, "25 of 24", x -> x.copy(0, 0, 2, 0, 25), INDEX);
+        e.still(Stage.BUSY, "from no places", x -> x.copy(2, 0, 1, 0, 1), INDEX);
+        e.still(Stage.BUSY, "to no places", x -> x.copy(1, 0, 2, 0, 1), INDEX);
+        e.still(Stage.FULL, "25 of 24", x -> x.copy(0, 0, 2, 0, 25), INDEX);
     }
 
     private void lay() {
@@ -398,13 +398,13 @@ final class SheetsEdges {
             x.lay(4, 3, k);
             e.is("the number " + k, x.rest(4, 1000003), k % 1000003);
             e.is("nothing, k " + k, x.lay(4, 0, k), 3);
-            e.still(Scene.NEW, "nothing where there is nothing, k " + k, y -> y.lay(0, 0, k), 0);
+            e.still(Stage.NEW, "nothing where there is nothing, k " + k, y -> y.lay(0, 0, k), 0);
         }
-        e.changes(Scene.BUSY, "the last SLOT", x -> x.lay(3, 3, 9), 0, names("slot 3 item ", 25,
+        e.changes(Stage.BUSY, "the last SLOT", x -> x.lay(3, 3, 9), 0, names("slot 3 item ", 25,
             "slot 3", "slot 3 ask 0", "slot 3 ask 1", "slot 3 ask 2", "slot 3 ask 3", "slot 3 ask 4", "slot 3 ask 5",
             "slot 3 rest", "slot 3 rest by 7"));
-        e.is("the last WIRE", Scene.FULL.make().lay(0, 1, 5), 1);
-        e.is("the last SHEET", Scene.FULL.make().lay(0, 2, 3), 1);
+        e.is("the last WIRE", Stage.FULL.make().lay(0, 1, 5), 1);
+        e.is("the last SHEET", Stage.FULL.make().lay(0, 2, 3), 1);
     }
 
     private void layForGood() {
@@ -458,13 +458,13 @@ final class SheetsEdges {
         for (int k : NO_SHEETS) {
             e.stillEverywhere("SHEET " + k, x -> x.lay(0, 2, k), BAD);
         }
-        e.still(Scene.NEW, "no WIRE yet", x -> x.lay(0, 1, 0), BAD);
-        e.still(Scene.BUSY, "behind the last WIRE", x -> x.lay(0, 1, 5), BAD);
+        e.still(Stage.NEW, "no WIRE yet", x -> x.lay(0, 1, 0), BAD);
+        e.still(Stage.BUSY, "behind the last WIRE", x -> x.lay(0, 1, 5), BAD);
         e.says(32, "NOTHING: that SHEET is MISSING.");
-        e.still(Scene.NEW, "MISSING", x -> x.lay(0, 2, 0), NOTHING);
+        e.still(Stage.NEW, "MISSING", x -> x.lay(0, 2, 0), NOTHING);
         for (int slot = 0; slot < 5; slot++) {
             int asked = slot;
-            e.still(Scene.BUSY, "what it held stays", x -> x.lay(asked, 2, 3), NOTHING);
+            e.still(Stage.BUSY, "what it held stays", x -> x.lay(asked, 2, 3), NOTHING);
         }
     }
 
@@ -485,10 +485,10 @@ final class SheetsEdges {
                 e.is(kind + " taken for " + asked, x.ask(0, asked), want);
             }
         }
-        e.still(Scene.BUSY, "TORN for SPIRAL", x -> x.ask(0, 2), 140);
-        e.still(Scene.BUSY, "TORN for LOADED", x -> x.ask(0, 1), KIND);
-        e.still(Scene.BUSY, "a SHEET", x -> x.ask(1, 0), KIND);
-        e.still(Scene.BUSY, "a number", x -> x.ask(2, 0), KIND);
+        e.still(Stage.BUSY, "TORN for SPIRAL", x -> x.ask(0, 2), 140);
+        e.still(Stage.BUSY, "TORN for LOADED", x -> x.ask(0, 1), KIND);
+        e.still(Stage.BUSY, "a SHEET", x -> x.ask(1, 0), KIND);
+        e.still(Stage.BUSY, "a number", x -> x.ask(2, 0), KIND);
     }
 
     private void askRefused() {
@@ -498,22 +498,22 @@ final class SheetsEdges {
         }
         for (int kind : new int[] {-1, 6, MIN, MAX}) {
             e.stillEverywhere("kind " + kind, x -> x.ask(0, kind), BAD);
-            e.still(Scene.BUSY, "BAD ahead of NOTHING, kind " + kind, x -> x.ask(3, kind), BAD);
-            e.still(Scene.BUSY, "BAD ahead of KIND, kind " + kind, x -> x.ask(2, kind), BAD);
+            e.still(Stage.BUSY, "BAD ahead of NOTHING, kind " + kind, x -> x.ask(3, kind), BAD);
+            e.still(Stage.BUSY, "BAD ahead of KIND, kind " + kind, x -> x.ask(2, kind), BAD);
         }
         e.says(33, "NOTHING;");
-        e.still(Scene.NEW, "holds nothing", x -> x.ask(0, 0), NOTHING);
-        e.still(Scene.BUSY, "holds nothing", x -> x.ask(3, 5), NOTHING);
+        e.still(Stage.NEW, "holds nothing", x -> x.ask(0, 0), NOTHING);
+        e.still(Stage.BUSY, "holds nothing", x -> x.ask(3, 5), NOTHING);
     }
 
     private void item() {
         e.says(34, "A place of the SHEET in a SLOT.");
-        e.still(Scene.BUSY, "shorts, the first", x -> x.item(4, 0), -9);
-        e.still(Scene.BUSY, "shorts, the last", x -> x.item(4, 4), 32767);
-        e.still(Scene.BUSY, "floats, the first", x -> x.item(1, 0), -99);
-        e.still(Scene.BUSY, "floats, the last of 24", x -> x.item(1, 23), 22901);
+        e.still(Stage.BUSY, "shorts, the first", x -> x.item(4, 0), -9);
+        e.still(Stage.BUSY, "shorts, the last", x -> x.item(4, 4), 32767);
+        e.still(Stage.BUSY, "floats, the first", x -> x.item(1, 0), -99);
+        e.still(Stage.BUSY, "floats, the last of 24", x -> x.item(1, 23), 22901);
         e.says(34, "KIND: NO NUMBER.");
-        e.still(Scene.BUSY, "the second", x -> x.item(1, 1), KIND);
+        e.still(Stage.BUSY, "the second", x -> x.item(1, 1), KIND);
     }
 
     private void itemRefused() {
@@ -522,19 +522,19 @@ final class SheetsEdges {
             e.stillEverywhere("slot " + slot, x -> x.item(slot, 0), BAD);
         }
         e.says(34, "NOTHING;");
-        e.still(Scene.NEW, "holds nothing", x -> x.item(0, 0), NOTHING);
-        e.still(Scene.BUSY, "holds nothing, ahead of INDEX", x -> x.item(3, -1), NOTHING);
+        e.still(Stage.NEW, "holds nothing", x -> x.item(0, 0), NOTHING);
+        e.still(Stage.BUSY, "holds nothing, ahead of INDEX", x -> x.item(3, -1), NOTHING);
         e.says(34, "KIND: it is no SHEET;");
         for (int place : new int[] {0, -1, 24}) {
-            e.still(Scene.BUSY, "a WIRE, ahead of INDEX, place " + place, x -> x.item(0, place), KIND);
-            e.still(Scene.BUSY, "a number, ahead of INDEX, place " + place, x -> x.item(2, place), KIND);
+            e.still(Stage.BUSY, "a WIRE, ahead of INDEX, place " + place, x -> x.item(0, place), KIND);
+            e.still(Stage.BUSY, "a number, ahead of INDEX, place " + place, x -> x.item(2, place), KIND);
         }
         e.says(34, "INDEX;");
         for (int place : new int[] {-1, 5, 24, MIN, MAX}) {
-            e.still(Scene.BUSY, "five places, place " + place, x -> x.item(4, place), INDEX);
+            e.still(Stage.BUSY, "five places, place " + place, x -> x.item(4, place), INDEX);
         }
         for (int place : new int[] {-1, 24, MIN, MAX}) {
-            e.still(Scene.BUSY, "24 places, place " + place, x -> x.item(1, place), INDEX);
+            e.still(Stage.BUSY, "24 places, place " + place, x -> x.item(1, place), INDEX);
         }
     }
 
@@ -547,7 +547,7 @@ final class SheetsEdges {
             x.lay(4, 3, r[0]);
             e.is(r[0] + " by " + r[1], x.rest(4, r[1]), r[2]);
         }
-        e.still(Scene.BUSY, "-77 by 10", x -> x.rest(2, 10), -7);
+        e.still(Stage.BUSY, "-77 by 10", x -> x.rest(2, 10), -7);
     }
 
     private void restRefused() {
@@ -557,16 +557,16 @@ final class SheetsEdges {
             e.stillEverywhere("BAD ahead of NO, slot " + slot, x -> x.rest(slot, 0), BAD);
         }
         e.says(35, "NOTHING;");
-        e.still(Scene.NEW, "holds nothing", x -> x.rest(0, 1), NOTHING);
-        e.still(Scene.BUSY, "holds nothing, ahead of NO", x -> x.rest(3, 0), NOTHING);
+        e.still(Stage.NEW, "holds nothing", x -> x.rest(0, 1), NOTHING);
+        e.still(Stage.BUSY, "holds nothing, ahead of NO", x -> x.rest(3, 0), NOTHING);
         e.says(35, "KIND: it is no number;");
         for (int n = 0; n < 2; n++) {
             int by = n;
-            e.still(Scene.BUSY, "a WIRE, by " + n, x -> x.rest(0, by), KIND);
-            e.still(Scene.BUSY, "a SHEET, by " + n, x -> x.rest(1, by), KIND);
+            e.still(Stage.BUSY, "a WIRE, by " + n, x -> x.rest(0, by), KIND);
+            e.still(Stage.BUSY, "a SHEET, by " + n, x -> x.rest(1, by), KIND);
         }
         e.says(35, "NO: n is 0.");
-        e.still(Scene.BUSY, "by 0", x -> x.rest(2, 0), NO);
+        e.still(Stage.BUSY, "by 0", x -> x.rest(2, 0), NO);
     }
 
     private void findings() {
@@ -575,13 +575,13 @@ final class SheetsEdges {
         e.is("a SLOT", new HumWire().ask(0, 0), NOTHING);
         e.says(TERMS, "INDEX: there is no such place;");
         e.is("of a SHEET", row(SHORTS, 1).mark(0, 1, 1), INDEX);
-        e.is("of a SLOT's", Scene.BUSY.make().item(4, 5), INDEX);
+        e.is("of a SLOT's", Stage.BUSY.make().item(4, 5), INDEX);
         e.says(TERMS, "SIZE: a number of places is below 0;");
         e.is("-1", new HumWire().sheet(0, 0, -1), SIZE);
         e.says(TERMS, "KIND: it is none (of a KIND, a number, or another thing).");
-        e.is("of a KIND", Scene.BUSY.make().as(0, 1), KIND);
-        e.is("a number: NO NUMBER", Scene.BUSY.make().item(1, 1), KIND);
-        e.is("a number", Scene.BUSY.make().rest(0, 1), KIND);
-        e.is("another thing", Scene.BUSY.make().item(0, 0), KIND);
+        e.is("of a KIND", Stage.BUSY.make().as(0, 1), KIND);
+        e.is("a number: NO NUMBER", Stage.BUSY.make().item(1, 1), KIND);
+        e.is("a number", Stage.BUSY.make().rest(0, 1), KIND);
+        e.is("another thing", Stage.BUSY.make().item(0, 0), KIND);
     }
 }

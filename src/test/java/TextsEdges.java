@@ -76,7 +76,7 @@ final class TextsEdges {
         x.feed(0, 0, 0);
         x.trim(1);
         e.is("to one byte", x.feed(0, 0, 0), 13);
-        e.changes(Scene.BUSY, "blanks to eleven bytes", y -> y.feed(BLANKS, BLANKS, BLANKS), 23, "count 6");
+        e.changes(Stage.BUSY, "blanks to eleven bytes", y -> y.feed(BLANKS, BLANKS, BLANKS), 23, "count 6");
     }
 
     private void feedOrder() {
@@ -99,7 +99,7 @@ final class TextsEdges {
 
     private void feedFull() {
         e.says(22, "FULL: it would have more than 96.");
-        e.still(Scene.FULL, "96 bytes", x -> x.feed(BLANKS, BLANKS, BLANKS), FULL);
+        e.still(Stage.FULL, "96 bytes", x -> x.feed(BLANKS, BLANKS, BLANKS), FULL);
         for (int bytes : new int[] {84, 85, 95, 96}) {
             HumWire x = new HumWire();
             for (int i = 0; i < 8; i++) {
@@ -114,18 +114,18 @@ final class TextsEdges {
 
     private void trim() {
         e.says(23, "THE TAPE keeps its first n bytes: n.");
-        e.still(Scene.NEW, "none of none", x -> x.trim(0), 0);
-        e.still(Scene.BUSY, "all of them", x -> x.trim(11), 11);
-        e.still(Scene.FULL, "all of them", x -> x.trim(96), 96);
-        HumWire x = Scene.BUSY.make(); // push 17*a+3
+        e.still(Stage.NEW, "none of none", x -> x.trim(0), 0);
+        e.still(Stage.BUSY, "all of them", x -> x.trim(11), 11);
+        e.still(Stage.FULL, "all of them", x -> x.trim(96), 96);
+        HumWire x = Stage.BUSY.make(); // push 17*a+3
         e.is("one less", x.trim(10), 10);
         e.is("bytes", x.count(6), 10);
         e.is("ends too soon", x.text(), -110);
-        x = Scene.BUSY.make();
+        x = Stage.BUSY.make();
         e.is("two less", x.trim(9), 9);
         e.is("is a TEXT", x.text(), 4);
         e.is("push 17*a", x.by(0, 10, 4), 170);
-        x = Scene.FULL.make();
+        x = Stage.FULL.make();
         e.is("none", x.trim(0), 0);
         e.is("bytes", x.count(6), 0);
         e.is("an empty TAPE", x.text(), -100);
@@ -148,16 +148,16 @@ final class TextsEdges {
         for (int n : new int[] {-1, 97, MIN, MAX}) {
             e.stillEverywhere("n " + n, x -> x.trim(n), BAD);
         }
-        e.still(Scene.NEW, "one of none", x -> x.trim(1), BAD);
-        e.still(Scene.BUSY, "one more than there are", x -> x.trim(12), BAD);
+        e.still(Stage.NEW, "one of none", x -> x.trim(1), BAD);
+        e.still(Stage.BUSY, "one more than there are", x -> x.trim(12), BAD);
     }
 
     private void text() {
         e.says(24, "THE TAPE is a TEXT: its number.");
-        e.changes(Scene.BUSY, "the fifth", HumWire::text, 4, "count 4", "count 6", "textTold 4 0", "textTold 4 1",
+        e.changes(Stage.BUSY, "the fifth", HumWire::text, 4, "count 4", "count 6", "textTold 4 0", "textTold 4 1",
             "why 1", "tape text", "tape key", "tape leaves");
         e.says(24, "-100 less the place of its FAULT;");
-        e.still(Scene.NEW, "an empty TAPE", HumWire::text, -100);
+        e.still(Stage.NEW, "an empty TAPE", HumWire::text, -100);
         fault("?", 0);
         fault(" ?", 1);
         fault("band " + "1+".repeat(45) + "?", 95);
@@ -179,14 +179,14 @@ final class TextsEdges {
 
     private void usedUp() {
         e.says(TERMS, "an act that reads it uses it up, whatever it answers):");
-        HumWire x = Scene.BUSY.make();
+        HumWire x = Stage.BUSY.make();
         x.text();
         e.is("a TEXT", x.count(6), 0);
         Due.feed(x, "push ?");
         x.text();
         e.is("a FAULT", x.count(6), 0);
         e.is("an empty one then", x.text(), -100);
-        x = Scene.FULL.make();
+        x = Stage.FULL.make();
         e.is("FULL", x.text(), FULL);
         e.is("FULL", x.count(6), 0);
         e.is("room for 96 again", x.feed(0, 0, 0), 12);
@@ -194,8 +194,8 @@ final class TextsEdges {
 
     private void textFull() {
         e.says(24, "FULL.");
-        e.changes(Scene.FULL, "the fifteenth", HumWire::text, FULL, "count 6", "tape text");
-        HumWire x = Scene.FULL.make();
+        e.changes(Stage.FULL, "the fifteenth", HumWire::text, FULL, "count 6", "tape text");
+        HumWire x = Stage.FULL.make();
         x.trim(95);
         e.is("a FAULT ahead of FULL", x.text(), -195);
         e.is("an empty TAPE ahead of FULL", x.text(), -100);
@@ -531,9 +531,9 @@ final class TextsEdges {
             e.is("KEY of '" + texts[key] + "'", x.textTold(0, 0), key);
             e.is("how many of '" + texts[key] + "'", x.textTold(0, 1), leaves[key]);
         }
-        e.still(Scene.FULL, "the first", x -> x.textTold(0, 0), 0);
-        e.still(Scene.FULL, "the last", x -> x.textTold(13, 0), 1);
-        e.still(Scene.FULL, "how many of 'tire s-l+11'", x -> x.textTold(11, 1), 3);
+        e.still(Stage.FULL, "the first", x -> x.textTold(0, 0), 0);
+        e.still(Stage.FULL, "the last", x -> x.textTold(13, 0), 1);
+        e.still(Stage.FULL, "how many of 'tire s-l+11'", x -> x.textTold(11, 1), 3);
     }
 
     private void textToldRefused() {
@@ -544,9 +544,9 @@ final class TextsEdges {
         for (int what : new int[] {-1, 2, MIN, MAX}) {
             e.stillEverywhere("what " + what, x -> x.textTold(0, what), BAD);
         }
-        e.still(Scene.NEW, "no TEXT yet", x -> x.textTold(0, 0), BAD);
-        e.still(Scene.BUSY, "behind the last", x -> x.textTold(4, 0), BAD);
-        e.is("the last", Scene.BUSY.make().textTold(3, 0), 0);
+        e.still(Stage.NEW, "no TEXT yet", x -> x.textTold(0, 0), BAD);
+        e.still(Stage.BUSY, "behind the last", x -> x.textTold(4, 0), BAD);
+        e.is("the last", Stage.BUSY.make().textTold(3, 0), 0);
     }
 
     private void why() {
@@ -555,8 +555,8 @@ final class TextsEdges {
         int[] full = {12, 13, 11};
         for (int key = 0; key < 3; key++) {
             int asked = key;
-            e.still(Scene.BUSY, "key " + key, x -> x.why(asked), busy[key]);
-            e.still(Scene.FULL, "key " + key, x -> x.why(asked), full[key]);
+            e.still(Stage.BUSY, "key " + key, x -> x.why(asked), busy[key]);
+            e.still(Stage.FULL, "key " + key, x -> x.why(asked), full[key]);
         }
     }
 
@@ -568,7 +568,7 @@ final class TextsEdges {
         e.says(26, "NONE.");
         for (int key = 0; key < 3; key++) {
             int asked = key;
-            e.still(Scene.NEW, "no TEXT", x -> x.why(asked), NONE);
+            e.still(Stage.NEW, "no TEXT", x -> x.why(asked), NONE);
         }
         HumWire x = new HumWire();
         Due.text(x, "push 1");

@@ -210,9 +210,9 @@ final class TicksEdges {
         int[] byTen = {10, 100, 0, 9, 11, 100};
         for (int what = 0; what < 6; what++) {
             int asked = what;
-            e.still(Scene.BUSY, "by 0, what " + what, x -> x.by(0, 0, asked), byLeast[what]);
-            e.still(Scene.BUSY, "by 10, what " + what, x -> x.by(0, 10, asked), byTen[what]);
-            e.still(Scene.BUSY, "by 99, what " + what, x -> x.by(0, 99, asked), byMost[what]);
+            e.still(Stage.BUSY, "by 0, what " + what, x -> x.by(0, 0, asked), byLeast[what]);
+            e.still(Stage.BUSY, "by 10, what " + what, x -> x.by(0, 10, asked), byTen[what]);
+            e.still(Stage.BUSY, "by 99, what " + what, x -> x.by(0, 99, asked), byMost[what]);
         }
         HumWire x = one(0, 2, 100, "band 5");
         x.set(0, 2, 105);
@@ -243,13 +243,13 @@ final class TicksEdges {
         int on(HumWire x, int wire);
     }
 
-    /** No scene has such wires, a new one has none and a busy one no sixth. */
+    /** No stage has such wires, a new one has none and a busy one no sixth. */
     private void refuseWires(OfWire call) {
         for (int wire : NO_WIRES) {
             e.stillEverywhere("wire " + wire, x -> call.on(x, wire), BAD);
         }
-        e.still(Scene.NEW, "no WIRE yet", x -> call.on(x, 0), BAD);
-        e.still(Scene.BUSY, "behind the last", x -> call.on(x, 5), BAD);
+        e.still(Stage.NEW, "no WIRE yet", x -> call.on(x, 0), BAD);
+        e.still(Stage.BUSY, "behind the last", x -> call.on(x, 5), BAD);
     }
 
     /** Whether a wire, HELD or not, is HELD behind a tick by EDDY 100. */
@@ -387,17 +387,17 @@ final class TicksEdges {
         e.is("SWING 99, less 14", x.told(0, 4), 85);
         e.is("TIRED 35", x.told(0, 6), 35);
         // busy: WIRE 1 has SWING 80 and EDDY 660 by 99; 80, less 24; tire gives 56 / 3
-        int tired = Scene.BUSY.make().told(1, 6);
-        x = Scene.BUSY.make();
+        int tired = Stage.BUSY.make().told(1, 6);
+        x = Stage.BUSY.make();
         e.is("busy", x.tick(1, 99), 660);
         e.is("TIRED", x.told(1, 6), tired + 18);
-        e.changes(Scene.BUSY, "another WIRE, HOUR and z stay", y -> y.tick(1, 99), 660, changedByTick(x, 1));
+        e.changes(Stage.BUSY, "another WIRE, HOUR and z stay", y -> y.tick(1, 99), 660, changedByTick(x, 1));
     }
 
-    /** Which names of a wire's are otherwise than in a busy scene. */
+    /** Which names of a wire's are otherwise than in a busy stage. */
     private static String[] changedByTick(HumWire x, int wire) {
         StringBuilder names = new StringBuilder();
-        HumWire before = Scene.BUSY.make();
+        HumWire before = Stage.BUSY.make();
         for (int what : new int[] {4, 5, 6}) {
             names.append(x.told(wire, what) != before.told(wire, what) ? "told " + wire + " " + what + "," : "");
         }
@@ -449,7 +449,7 @@ final class TicksEdges {
         HumWire x = one(0, 2, 100, "band 99", "tire 1");
         x.run(60);
         e.is("60 TICKS", x.told(0, 6), 60);
-        e.changes(Scene.NEW, "without WIRES", y -> y.run(24 + 5), 5, "count 2");
+        e.changes(Stage.NEW, "without WIRES", y -> y.run(24 + 5), 5, "count 2");
     }
 
     private void runRefused() {
@@ -519,8 +519,8 @@ final class TicksEdges {
         int[] leed = {10, 12, 11, 9};
         for (int what = 0; what < 4; what++) {
             int asked = what;
-            e.still(Scene.BUSY, "what " + what, x -> x.line(0, asked), plain[what]);
-            e.still(Scene.BUSY, "the last WIRE, what " + what, x -> x.line(4, asked), leed[what]);
+            e.still(Stage.BUSY, "what " + what, x -> x.line(0, asked), plain[what]);
+            e.still(Stage.BUSY, "the last WIRE, what " + what, x -> x.line(4, asked), leed[what]);
         }
         e.says(15, "NONE: it does not.");
         e.is("never HELD UP", one(0, 9, 999).line(0, 0), NONE);
@@ -568,8 +568,8 @@ final class TicksEdges {
         days("the first TICK has the greatest", x, 1, 0, 17);
         for (int what = 0; what < 3; what++) {
             int asked = what;
-            e.still(Scene.BUSY, "what " + what, y -> y.day(3, asked), Scene.BUSY.make().day(3, what));
-            e.still(Scene.FULL, "the last WIRE, what " + what, y -> y.day(5, asked), Scene.FULL.make().day(5, what));
+            e.still(Stage.BUSY, "what " + what, y -> y.day(3, asked), Stage.BUSY.make().day(3, what));
+            e.still(Stage.FULL, "the last WIRE, what " + what, y -> y.day(5, asked), Stage.FULL.make().day(5, what));
         }
     }
 
@@ -621,7 +621,7 @@ final class TicksEdges {
         x.run(60);
         x.run(41);
         e.is("TIRED is above all v", x.life(0, 99999), 0);
-        e.still(Scene.BUSY, "nothing changes", y -> y.life(0, 99999), NONE);
+        e.still(Stage.BUSY, "nothing changes", y -> y.life(0, 99999), NONE);
         e.says(17, "NONE: longer.");
         x = one(0, 2, 100, "tire 3");
         e.is("501 TICKS", x.life(0, 1501), NONE);
@@ -656,6 +656,6 @@ final class TicksEdges {
         for (int v : new int[] {-1, 100000, MIN, MAX}) {
             e.stillEverywhere("v " + v, x -> x.life(0, v), BAD);
         }
-        e.still(Scene.BUSY, "the greatest v is none of these", x -> x.life(0, 99999), NONE);
+        e.still(Stage.BUSY, "the greatest v is none of these", x -> x.life(0, 99999), NONE);
     }
 }

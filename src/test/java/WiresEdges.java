@@ -3,7 +3,7 @@ final class WiresEdges {
     private static final int BAD = HumWire.BAD, FULL = HumWire.FULL, KIND = HumWire.KIND, NO = HumWire.NO;
     private static final int NONE = HumWire.NONE, NOTHING = HumWire.NOTHING;
     private static final int MIN = Edges.MIN, MAX = Edges.MAX, TERMS = Edges.TERMS;
-    /** What is no number of a wire in any scene; 5 is none in a busy one, and none is one in a new one. */
+    /** What is no number of a wire in any stage; 5 is none in a busy one, and none is one in a new one. */
     private static final int[] NO_WIRES = {-1, 6, MIN, MAX};
     private static final int[] NO_HOURS = {-1, 24, MIN, MAX};
     private static final int[] NO_KINDS = {-1, 6, MIN, MAX};
@@ -74,7 +74,7 @@ final class WiresEdges {
     private void objectsApart() {
         e.says(1, "As told");
         HumWire first = new HumWire();
-        Scene.FULL.make();
+        Stage.FULL.make();
         e.is("another object is not seen: WIRES", first.count(0), 0);
         e.is("another object is not seen: TEXTS", first.count(4), 0);
         e.is("another object is not seen: THE TAPE", first.count(6), 0);
@@ -112,7 +112,7 @@ final class WiresEdges {
         for (int own : new int[] {0, 1000, -1, MIN, MAX}) {
             e.stillEverywhere("own " + own, x -> x.wire(0, 1, own), BAD);
         }
-        HumWire x = Scene.BUSY.make();
+        HumWire x = Stage.BUSY.make();
         x.wire(0, 0, 1);
         e.is("the next takes the next number", x.wire(0, 1, 1), 5);
     }
@@ -120,8 +120,8 @@ final class WiresEdges {
     private void wireFull() {
         e.says(2, "FULL.");
         e.also(TERMS, "WIRES, 6 at most");
-        e.still(Scene.FULL, "the seventh", x -> x.wire(0, 1, 1), FULL);
-        HumWire x = Scene.BUSY.make();
+        e.still(Stage.FULL, "the seventh", x -> x.wire(0, 1, 1), FULL);
+        HumWire x = Stage.BUSY.make();
         e.is("the sixth", x.wire(5, 9, 999), 5);
         e.is("the seventh", x.wire(5, 9, 999), FULL);
     }
@@ -162,7 +162,7 @@ final class WiresEdges {
         e.is("the last WIRE", x.told(1, 1), 1);
         for (int what = 0; what < 9; what++) {
             int asked = what;
-            e.still(Scene.BUSY, "what " + what, y -> y.told(4, asked), Scene.BUSY.make().told(4, what));
+            e.still(Stage.BUSY, "what " + what, y -> y.told(4, asked), Stage.BUSY.make().told(4, what));
         }
     }
 
@@ -174,9 +174,9 @@ final class WiresEdges {
         for (int what : new int[] {-1, 9, MIN, MAX}) {
             e.stillEverywhere("what " + what, x -> x.told(0, what), BAD);
         }
-        e.still(Scene.NEW, "no WIRE yet", x -> x.told(0, 0), BAD);
-        e.still(Scene.BUSY, "behind the last", x -> x.told(5, 0), BAD);
-        e.is("the last of six", Scene.FULL.make().told(5, 0), 5);
+        e.still(Stage.NEW, "no WIRE yet", x -> x.told(0, 0), BAD);
+        e.still(Stage.BUSY, "behind the last", x -> x.told(5, 0), BAD);
+        e.is("the last of six", Stage.FULL.make().told(5, 0), 5);
     }
 
     private void as() {
@@ -192,7 +192,7 @@ final class WiresEdges {
                 }
                 int wire = kind;
                 int as = asked;
-                e.still(Scene.FULL, kind + " as " + asked, x -> x.as(wire, as), want);
+                e.still(Stage.FULL, kind + " as " + asked, x -> x.as(wire, as), want);
             }
         }
     }
@@ -205,8 +205,8 @@ final class WiresEdges {
         for (int kind : NO_KINDS) {
             e.stillEverywhere("kind " + kind, x -> x.as(0, kind), BAD);
         }
-        e.still(Scene.NEW, "no WIRE yet", x -> x.as(0, 0), BAD);
-        e.still(Scene.BUSY, "BAD ahead of KIND: no such WIRE", x -> x.as(5, 3), BAD);
+        e.still(Stage.NEW, "no WIRE yet", x -> x.as(0, 0), BAD);
+        e.still(Stage.BUSY, "BAD ahead of KIND: no such WIRE", x -> x.as(5, 3), BAD);
     }
 
     private void turns() {
@@ -225,9 +225,9 @@ final class WiresEdges {
             }
         }
         // 50: DEAD is worth 50, LOSS 2 and 100; it loses twice 2 and 1 and 3
-        e.changes(Scene.BUSY, "turns", x -> x.turns(0, 3), 0, "told 0 0", "told 0 7", "told 0 8");
-        e.changes(Scene.FULL, "the last WIRE turns", x -> x.turns(5, 0), 5, "told 5 0", "told 5 8");
-        e.still(Scene.BUSY, "to what it is", x -> x.turns(4, 5), 5);
+        e.changes(Stage.BUSY, "turns", x -> x.turns(0, 3), 0, "told 0 0", "told 0 7", "told 0 8");
+        e.changes(Stage.FULL, "the last WIRE turns", x -> x.turns(5, 0), 5, "told 5 0", "told 5 8");
+        e.still(Stage.BUSY, "to what it is", x -> x.turns(4, 5), 5);
     }
 
     private void turnsRefused() {
@@ -238,8 +238,8 @@ final class WiresEdges {
         for (int kind : NO_KINDS) {
             e.stillEverywhere("kind " + kind, x -> x.turns(0, kind), BAD);
         }
-        e.still(Scene.NEW, "no WIRE yet", x -> x.turns(0, 0), BAD);
-        e.still(Scene.BUSY, "behind the last", x -> x.turns(5, 0), BAD);
+        e.still(Stage.NEW, "no WIRE yet", x -> x.turns(0, 0), BAD);
+        e.still(Stage.BUSY, "behind the last", x -> x.turns(5, 0), BAD);
     }
 
     private void set() {
@@ -256,10 +256,10 @@ final class WiresEdges {
             e.is("is it", x.told(0, what), most[what]);
             e.is("the same again", x.set(0, what, most[what]), most[what]);
         }
-        e.changes(Scene.BUSY, "THICK", x -> x.set(0, 1, 9), 2, "told 0 1", "told 0 8");
-        e.changes(Scene.BUSY, "OWN", x -> x.set(0, 2, 999), 100, "told 0 2", "told 0 8");
-        e.changes(Scene.BUSY, "LOSS", x -> x.set(0, 3, 9), 2, "told 0 3", "told 0 7");
-        e.changes(Scene.BUSY, "SWING", x -> x.set(1, 4, 9999), 80, "told 1 4");
+        e.changes(Stage.BUSY, "THICK", x -> x.set(0, 1, 9), 2, "told 0 1", "told 0 8");
+        e.changes(Stage.BUSY, "OWN", x -> x.set(0, 2, 999), 100, "told 0 2", "told 0 8");
+        e.changes(Stage.BUSY, "LOSS", x -> x.set(0, 3, 9), 2, "told 0 3", "told 0 7");
+        e.changes(Stage.BUSY, "SWING", x -> x.set(1, 4, 9999), 80, "told 1 4");
     }
 
     private void setRefused() {
@@ -276,21 +276,21 @@ final class WiresEdges {
         }
         for (int what = 1; what <= 4; what++) {
             int asked = what;
-            e.still(Scene.BUSY, "what " + what + ", far below", x -> x.set(0, asked, MIN), BAD);
-            e.still(Scene.BUSY, "what " + what + ", far above", x -> x.set(0, asked, MAX), BAD);
+            e.still(Stage.BUSY, "what " + what + ", far below", x -> x.set(0, asked, MIN), BAD);
+            e.still(Stage.BUSY, "what " + what + ", far above", x -> x.set(0, asked, MAX), BAD);
         }
-        e.still(Scene.NEW, "no WIRE yet", x -> x.set(0, 1, 1), BAD);
-        e.still(Scene.BUSY, "behind the last", x -> x.set(5, 1, 1), BAD);
+        e.still(Stage.NEW, "no WIRE yet", x -> x.set(0, 1, 1), BAD);
+        e.still(Stage.BUSY, "behind the last", x -> x.set(5, 1, 1), BAD);
     }
 
     private void wind() {
         e.says(7, "WIND of an HOUR becomes v: what it was.");
         e.also(TERMS, "HOURS are 0 .. 23, each with a WIND 0 .. 99");
-        e.changes(Scene.NEW, "HOUR 0, the least", x -> x.wind(0, 0), 10, "windAt 0");
-        e.changes(Scene.NEW, "HOUR 0, the greatest", x -> x.wind(0, 99), 10, "windAt 0");
-        e.changes(Scene.BUSY, "HOUR 23, the least", x -> x.wind(23, 0), 10, "windAt 23");
-        e.changes(Scene.BUSY, "HOUR 20, the greatest", x -> x.wind(20, 99), 33, "windAt 20");
-        e.still(Scene.BUSY, "HOUR 20, as it is", x -> x.wind(20, 33), 33);
+        e.changes(Stage.NEW, "HOUR 0, the least", x -> x.wind(0, 0), 10, "windAt 0");
+        e.changes(Stage.NEW, "HOUR 0, the greatest", x -> x.wind(0, 99), 10, "windAt 0");
+        e.changes(Stage.BUSY, "HOUR 23, the least", x -> x.wind(23, 0), 10, "windAt 23");
+        e.changes(Stage.BUSY, "HOUR 20, the greatest", x -> x.wind(20, 99), 33, "windAt 20");
+        e.still(Stage.BUSY, "HOUR 20, as it is", x -> x.wind(20, 33), 33);
         HumWire x = new HumWire();
         x.wind(23, 99);
         e.is("what it was", x.wind(23, 0), 99);
@@ -311,9 +311,9 @@ final class WiresEdges {
 
     private void windAt() {
         e.says(8, "WIND of an HOUR.");
-        e.still(Scene.BUSY, "the first HOUR", x -> x.windAt(0), 8);
-        e.still(Scene.BUSY, "the last HOUR", x -> x.windAt(23), 10);
-        e.still(Scene.BUSY, "HOUR 20", x -> x.windAt(20), 33);
+        e.still(Stage.BUSY, "the first HOUR", x -> x.windAt(0), 8);
+        e.still(Stage.BUSY, "the last HOUR", x -> x.windAt(23), 10);
+        e.still(Stage.BUSY, "HOUR 20", x -> x.windAt(20), 33);
         e.says(8, "BAD.");
         for (int hour : NO_HOURS) {
             e.stillEverywhere("hour " + hour, x -> x.windAt(hour), BAD);
@@ -323,8 +323,8 @@ final class WiresEdges {
     private void limit() {
         e.says(9, "LIMIT becomes v: what it was.");
         e.also(TERMS, "LIMIT is 0 .. 9999");
-        e.changes(Scene.NEW, "the least", x -> x.limit(0), 50, "count 3");
-        e.changes(Scene.BUSY, "the greatest", x -> x.limit(9999), 9, "count 3");
+        e.changes(Stage.NEW, "the least", x -> x.limit(0), 50, "count 3");
+        e.changes(Stage.BUSY, "the greatest", x -> x.limit(9999), 9, "count 3");
         HumWire x = new HumWire();
         x.limit(9999);
         e.is("what it was", x.limit(0), 9999);
@@ -450,6 +450,6 @@ final class WiresEdges {
             e.is("is it", x.count(7), v);
             before = v;
         }
-        e.changes(Scene.BUSY, "seed", y -> y.seed(MAX), -77, "count 7");
+        e.changes(Stage.BUSY, "seed", y -> y.seed(MAX), -77, "count 7");
     }
 }

@@ -1,7 +1,7 @@
 import java.util.Map;
 
 /** Objects on which calls are tried: a new one, one in the midst of its work, and one that is full of all. */
-enum Scene {
+enum Stage {
     NEW, BUSY, FULL;
 
     private Map<String, Integer> sight;
