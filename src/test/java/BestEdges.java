@@ -178,11 +178,13 @@ final class BestEdges {
         e.also(TERMS, "BLOWN for a TONE: of w 0 .. 99 those by which EDDY of a WIRE is just that.");
         int[][] cases = { // kind, THICK, TONE, least, greatest, how many
             {0, 1, 0, 0, 0, 1}, {0, 1, 1980, 99, 99, 1}, {0, 9, 2, 1, 1, 1}, {0, 9, 220, 99, 99, 1}, {0, 9, 0, 0, 0, 1},
-            {5, 1, 0, 0, 1, 2}, {5, 1, 980, 98, 99, 2}, {5, 9, 108, 98, 99, 2}, {5, 9, 2, 2, 3, 2}, {0, 1, 20, 1, 1, 1}};
+            {5, 1, 0, 0, 1, 2}, {5, 1, 980, 98, 99, 2}, {5, 9, 108, 98, 99, 2}, {5, 9, 2, 2, 3, 2},
+            {0, 1, 20, 1, 1, 1}};
         for (int[] c : cases) {
             HumWire x = one(c[0], c[1], 500);
+            String of = "kind " + c[0] + ", THICK " + c[1] + ", TONE " + c[2];
             for (int what = 0; what < 3; what++) {
-                e.is("kind " + c[0] + ", THICK " + c[1] + ", TONE " + c[2] + ", what " + what, x.blown(0, c[2], what), c[3 + what]);
+                e.is(of + ", what " + what, x.blown(0, c[2], what), c[3 + what]);
             }
         }
         HumWire x = one(0, 2, 105, "band 9");

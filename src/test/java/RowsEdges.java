@@ -78,7 +78,8 @@ final class RowsEdges {
     private void check() {
         e.says(37, "The numbers that wait");
         e.also(37, "are THE HOURS TOLD of a WIRE (of THE IMAGE), of n (1 .. 30), two by two: 0;");
-        e.also(TERMS, "THE HOURS TOLD of a WIRE: of n HOURS, one behind the other, by THE IMAGE: TONE and SWING of that WIRE in each.");
+        e.also(TERMS, "THE HOURS TOLD of a WIRE: of n HOURS, one behind the other, by THE IMAGE: "
+            + "TONE and SWING of that WIRE in each.");
         HumWire x = kept();
         e.is("one HOUR", checked(x, 1, 1, 100, 9), 0);
         e.is("two HOURS", checked(x, 1, 2, 100, 9, 100, 17), 0);

@@ -109,7 +109,8 @@ final class SheetsEdges {
             e.is("the next is not", x.pour(3) == NOTHING ? 1 : 0, 0);
             e.still(Stage.NEW, "MISSING already, n " + n, y -> y.sheet(2, -1, n), 0);
         }
-        e.changes(Stage.FULL, "MISSING", x -> x.sheet(3, -1, 9), 0, names("sheet 3 item ", 25, "sheet 3", "sheet 3 sort"));
+        e.changes(Stage.FULL, "MISSING", x -> x.sheet(3, -1, 9), 0,
+            names("sheet 3 item ", 25, "sheet 3", "sheet 3 sort"));
     }
 
     private void sheetRefused() {
@@ -259,7 +260,8 @@ final class SheetsEdges {
     }
 
     private void reads() {
-        e.says(30, "The first place (of numbers alone) at which a SHEET is not EDDY of a WIRE by the WIND of that HOUR.");
+        e.says(30, "The first place (of numbers alone) at which a SHEET is not EDDY of a WIRE "
+            + "by the WIND of that HOUR.");
         HumWire x = row(SHORTS, new int[24]);
         x.wire(0, 2, 100);
         x.wind(23, 99);
@@ -540,8 +542,8 @@ final class SheetsEdges {
 
     private void rest() {
         e.says(35, "The rest of the number in a SLOT by n.");
-        int[][] rests = {{11, 4, 3}, {-11, 4, -3}, {11, -4, 3}, {-11, -4, -3}, {0, 5, 0}, {5, 5, 0}, {4, 5, 4}, {MIN, -1, 0},
-            {MIN, 1, 0}, {MIN, MIN, 0}, {MAX, MIN, MAX}, {MIN, MAX, -1}, {MAX, MAX, 0}, {7, -1, 0}};
+        int[][] rests = {{11, 4, 3}, {-11, 4, -3}, {11, -4, 3}, {-11, -4, -3}, {0, 5, 0}, {5, 5, 0}, {4, 5, 4},
+            {MIN, -1, 0}, {MIN, 1, 0}, {MIN, MIN, 0}, {MAX, MIN, MAX}, {MIN, MAX, -1}, {MAX, MAX, 0}, {7, -1, 0}};
         for (int[] r : rests) {
             HumWire x = new HumWire();
             x.lay(4, 3, r[0]);

@@ -22,7 +22,11 @@ final class TextsEdges {
         usedUp();
         textFull();
         keys();
-        grammar();
+        ors();
+        ands();
+        tests();
+        sums();
+        terms();
         pieces();
         names();
         words();
@@ -30,7 +34,10 @@ final class TextsEdges {
         faults();
         depth();
         endTooSoon();
-        values();
+        wraps();
+        byZero();
+        truths();
+        cuts();
         lastTold();
         textTold();
         textToldRefused();
@@ -217,7 +224,7 @@ final class TextsEdges {
         fault("band 1+band", 7);
     }
 
-    private void grammar() {
+    private void ors() {
         e.says(TERMS, "E, the loosest first: OR: AND { | AND };");
         gives("0|0", 0);
         gives("0|0|9", 1);
@@ -226,6 +233,9 @@ final class TextsEdges {
         fault("band 1|", 7);
         fault("band |1", 5);
         fault("band 1||1", 7);
+    }
+
+    private void ands() {
         e.says(TERMS, "AND: TEST { & TEST };");
         gives("1&2&3", 1);
         gives("1&2&0", 0);
@@ -234,6 +244,9 @@ final class TextsEdges {
         fault("band 1&", 7);
         fault("band &1", 5);
         fault("band 1&&1", 7);
+    }
+
+    private void tests() {
         e.says(TERMS, "TEST: SUM [ (< | = | >) SUM ];");
         gives("1+1=2", 1);
         gives("2=1+1", 1);
@@ -249,6 +262,9 @@ final class TextsEdges {
         fault("band 1<=2", 7);
         fault("band 1==2", 7);
         fault("band 1<>2", 7);
+    }
+
+    private void sums() {
         e.says(TERMS, "SUM: TERM { (+ | -) TERM };");
         gives("50-20-10", 20);
         gives("50-20+10", 40);
@@ -258,6 +274,9 @@ final class TextsEdges {
         fault("band +1", 5);
         fault("band -1", 5);
         fault("band 1+-1", 7);
+    }
+
+    private void terms() {
         e.says(TERMS, "TERM: PIECE { (* | /) PIECE };");
         gives("2+3*4", 14);
         gives("3*4+2", 14);
@@ -353,7 +372,8 @@ final class TextsEdges {
     }
 
     private void words() {
-        e.says(TERMS, "A word is a row of letters a .. z, or of digits, as long as it goes; any other byte is a sign by itself.");
+        e.says(TERMS, "A word is a row of letters a .. z, or of digits, as long as it goes; "
+            + "any other byte is a sign by itself.");
         fault("band eoe", 5);
         fault("band 1+ee", 7);
         fault("bandpush 1", 0);
@@ -430,7 +450,8 @@ final class TextsEdges {
         fault("band " + open("( ", 9), 21);
         e.says(TERMS, "the ninth ! likewise, each by itself);");
         String nots = open("!", 8) + "1";
-        good("band " + nots, "band " + nots + "+" + nots, "band " + open("!", 8) + closed, "band " + open("(", 8) + nots + open(")", 8));
+        good("band " + nots, "band " + nots + "+" + nots);
+        good("band " + open("!", 8) + closed, "band " + open("(", 8) + nots + open(")", 8));
         good("band " + open("!(", 8) + "1" + open(")", 8), "band " + open("(!", 8) + "1" + open(")", 8));
         good("band (" + nots + ")+(" + nots + ")", "band !(1)+" + nots);
         fault("band " + open("!", 9) + "1", 13);
@@ -459,7 +480,7 @@ final class TextsEdges {
         good("band 1", "band (1)");
     }
 
-    private void values() {
+    private void wraps() {
         e.says(TERMS, "Ints wrap;");
         gives("2048*1024*1024<0", 1);
         gives("2048*1024*1024-1>0", 1);
@@ -468,12 +489,18 @@ final class TextsEdges {
         gives("2048*1024*1024/(0-1)=2048*1024*1024", 1);
         gives("4096*1024*1024", 0);
         gives("4096*1024*1024+7", 7);
+    }
+
+    private void byZero() {
         e.says(TERMS, "/ is 0 by 0;");
         gives("7/0", 0);
         gives("0/0", 0);
         gives("5+7/0", 5);
         gives("7/(e-30)", 0);
         gives("2048*1024*1024/0", 0);
+    }
+
+    private void truths() {
         e.says(TERMS, "tests, & | ! give 1 or 0 (what is not 0 is true; both sides are worked out).");
         gives("1<2", 1);
         gives("2<2", 0);
@@ -496,6 +523,9 @@ final class TextsEdges {
         gives("!0", 1);
         gives("5|7/0", 1);
         gives("0&7/0", 0);
+    }
+
+    private void cuts() {
         e.says(TERMS, "All numbers are whole; / cuts towards 0.");
         gives("7/2", 3);
         gives("(0-7)/2+10", 7);

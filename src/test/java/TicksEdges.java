@@ -117,7 +117,8 @@ final class TicksEdges {
         int[][] bands = {{0, 4}, {19, 4}, {20, 5}, {39, 5}, {1919, 99}, {1920, 100}, {9999, 503}};
         for (int[] b : bands) {
             e.is("SWING " + b[0], swinging(0, 2, 100, b[0]).by(0, 10, BAND), b[1]);
-            e.is("SWING " + b[0] + ", other TEXTS", swinging(0, 2, 100, b[0], "push 1", "tire 1").by(0, 10, BAND), b[1]);
+            HumWire x = swinging(0, 2, 100, b[0], "push 1", "tire 1");
+            e.is("SWING " + b[0] + ", other TEXTS", x.by(0, 10, BAND), b[1]);
         }
     }
 
@@ -171,7 +172,8 @@ final class TicksEdges {
 
     private void worth() {
         int[][] worths = { // OWN 1, THICK 9, LOSS 0; OWN 999, THICK 1, LOSS 9; OWN 18, THICK 6 (3); OWN 17, THICK 6 (2)
-            {0, 999, 3, 2}, {0, 1008, 5, 4}, {0, 499, 1, 1}, {100, 1108, 105, 104}, {1, 999, 18, 17}, {-5, 994, -2, -3}};
+            {0, 999, 3, 2}, {0, 1008, 5, 4}, {0, 499, 1, 1}, {100, 1108, 105, 104}, {1, 999, 18, 17},
+            {-5, 994, -2, -3}};
         String[] words = {"WORTH: WIRE: OWN / THICK.", "LOADED: as WIRE, and LOSS.", "SPIRAL: half (cut) of as WIRE.",
             "DEAD: as LOADED, and 100.", "TORN: OWN.", "LEED: as WIRE, less 5."};
         for (int kind = 0; kind < 6; kind++) {
@@ -503,7 +505,8 @@ final class TicksEdges {
     }
 
     private void catchesAndLetsGo() {
-        e.says(TERMS, "CATCHES: the first w with which it is HELD; LETS GO: the first w behind that with which it is not.");
+        e.says(TERMS, "CATCHES: the first w with which it is HELD; "
+            + "LETS GO: the first w behind that with which it is not.");
         // HELD by 10 and by 12 (20 off, BAND 99), not by 11 (10 off, BAND 0)
         HumWire x = one(0, 2, 100, "band (e=100|e=120)*99");
         lines("twice", x, 10, 11, 12, 11);

@@ -182,7 +182,8 @@ final class WiresEdges {
     private void as() {
         e.says(4, "A WIRE as one of a KIND: OWN.");
         e.also(4, "KIND: it is not of that KIND, nor of one under it.");
-        e.also(TERMS, "1 LOADED, 2 SPIRAL, 5 LEED, under WIRE; 3 DEAD, under LOADED; 4 TORN, under SPIRAL (all are WIRES).");
+        e.also(TERMS, "1 LOADED, 2 SPIRAL, 5 LEED, under WIRE; 3 DEAD, under LOADED; 4 TORN, under SPIRAL "
+            + "(all are WIRES).");
         int[][] above = {{0}, {1, 0}, {2, 0}, {3, 1, 0}, {4, 2, 0}, {5, 0}};
         for (int kind = 0; kind < 6; kind++) {
             for (int asked = 0; asked < 6; asked++) {
