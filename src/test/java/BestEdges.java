@@ -151,6 +151,12 @@ final class BestEdges {
         x.run(3);
         e.is("TIRED 3 and 24", x.lumps(0, 27), 0);
         e.is("one less", x.lumps(0, 26), NONE);
+        x = one(0, 2, 100, "band 5", "tire !h");
+        x.tick(0, 10);
+        x.set(0, 2, 108);
+        e.is("HELD now, so it stays HELD", x.lumps(0, 0), 0);
+        x.tick(0, 99);
+        e.is("not HELD now: 1 and 24", x.lumps(0, 24), NONE);
         x = one(0, 2, 999, "tire 999");
         x.run(60);
         x.run(15);
@@ -242,6 +248,13 @@ final class BestEdges {
         x.mark(3, 2, 104);
         e.is("two of three", x.heard(3), 4);
         e.still(Stage.BUSY, "nothing changes", y -> y.heard(1), Stage.BUSY.make().heard(1));
+        x = six(0, 1);
+        x.run(1);
+        x.set(4, 2, 110);
+        x.mark(3, 0, 110);
+        e.is("HELD now: 10 off is not above 2 times BAND", x.heard(3), 4);
+        x.tick(4, 99);
+        e.is("not HELD now", x.heard(3), 0);
     }
 
     private void heardOfSeveral() {

@@ -106,8 +106,11 @@ final class RowsEdges {
     private void checkMissingOrTooMany() {
         e.says(37, "(or is missing, or one too many).");
         int[] right = {100, 9, 100, 17, 300, 15};
+        HumWire x = kept();
         for (int k = 0; k < 6; k++) {
             e.is(k + " of 6", checked(kept(), 1, 3, Arrays.copyOf(right, k)), 1 + k);
+            e.is("6 of 6", checked(x, 1, 3, right), 0);
+            e.is(k + " of 6, though all were told ahead of it", checked(x, 1, 3, Arrays.copyOf(right, k)), 1 + k);
         }
         e.is("none at all", checked(kept(), 1, 30), 1);
         e.is("one too many", checked(kept(), 1, 2, 100, 9, 100, 17, 300), 5);

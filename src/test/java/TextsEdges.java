@@ -61,13 +61,19 @@ final class TextsEdges {
         e.is("'" + text + "' is no TEXT", x.count(4), 0);
     }
 
-    /** What a band gives, of EDDY 30, OWN 20 and SWING 10; 0 .. 99 can be told. */
-    private void gives(String band, int want) {
+    /** What an E gives, 0 .. 49; with 50 more too, so that what is held at 0 is told from 0. */
+    private void gives(String given, int want) {
+        e.is("'" + given + "'", bandOf(given), want);
+        e.is("50 and '" + given + "'", bandOf("50+(" + given + ")"), 50 + want);
+    }
+
+    /** BAND by a text, of EDDY 30, OWN 20 and SWING 10. */
+    private static int bandOf(String given) {
         HumWire x = new HumWire();
         x.wire(0, 2, 20);
         x.set(0, 4, 10);
-        Due.text(x, "band " + band);
-        e.is("'" + band + "'", x.by(0, 3, 3), want);
+        Due.text(x, "band " + given);
+        return x.by(0, 3, 3);
     }
 
     private void feed() {
@@ -556,14 +562,24 @@ final class TextsEdges {
         String[] texts = {"band e", "push " + "1+".repeat(45) + "1", "tire !(s<l)&h=1|(((2)))"};
         int[] leaves = {1, 46, 5};
         for (int key = 0; key < 3; key++) {
-            HumWire x = new HumWire();
-            Due.text(x, texts[key]);
-            e.is("KEY of '" + texts[key] + "'", x.textTold(0, 0), key);
-            e.is("how many of '" + texts[key] + "'", x.textTold(0, 1), leaves[key]);
+            HumWire one = new HumWire();
+            Due.text(one, texts[key]);
+            e.is("KEY of '" + texts[key] + "'", one.textTold(0, 0), key);
+            e.is("how many of '" + texts[key] + "'", one.textTold(0, 1), leaves[key]);
         }
-        e.still(Stage.FULL, "the first", x -> x.textTold(0, 0), 0);
-        e.still(Stage.FULL, "the last", x -> x.textTold(13, 0), 1);
-        e.still(Stage.FULL, "how many of 'tire s-l+11'", x -> x.textTold(11, 1), 3);
+        HumWire x = new HumWire();
+        x.keep();
+        Due.text(x, "band 1+1+1+");
+        Due.text(x, "push 1+1");
+        e.is("those of a FAULT ahead of it do not count", x.textTold(0, 1), 2);
+        e.is("nor its KEY", x.textTold(0, 0), 1);
+        x.back();
+        Due.text(x, "tire 1");
+        e.is("nor those of one that is gone", x.textTold(0, 1), 1);
+        e.is("nor its KEY", x.textTold(0, 0), 2);
+        e.still(Stage.FULL, "the first", y -> y.textTold(0, 0), 0);
+        e.still(Stage.FULL, "the last", y -> y.textTold(13, 0), 1);
+        e.still(Stage.FULL, "how many of 'tire s-l+11'", y -> y.textTold(11, 1), 3);
     }
 
     private void textToldRefused() {

@@ -47,9 +47,11 @@ final class TicksEdges {
         lineRefused();
         day();
         dayGoesRound();
+        dayFromNowOn();
         dayRefused();
         life();
         lifeGoesRound();
+        lifeFromNowOn();
         lifeRefused();
     }
 
@@ -594,6 +596,28 @@ final class TicksEdges {
         x.wind(22, 99);
         x.wind(21, 10);
         e.is("from 22: 21 is the last", x.day(0, 0), 1);
+    }
+
+    /** A wire that is 8 off by 10: not above 2 times BAND, but above BAND. */
+    private static HumWire eightOff(boolean heldNow, String tire) {
+        HumWire x = one(0, 2, heldNow ? 100 : 900, "band 5", tire);
+        x.tick(0, 10);
+        x.set(0, 2, 108);
+        return x;
+    }
+
+    private void dayFromNowOn() {
+        e.says(TERMS, "24 TICKS by WINDS of the HOURS from THE HOUR on: how many with it HELD");
+        e.is("HELD now, so it stays HELD", eightOff(true, "tire 0").day(0, 0), 24);
+        e.is("not HELD now", eightOff(false, "tire 0").day(0, 0), 0);
+    }
+
+    private void lifeFromNowOn() {
+        e.says(TERMS, "LIFE for v: after how many TICKS");
+        HumWire x = eightOff(true, "tire h");
+        e.is("HELD now, so it stays HELD", x.life(0, x.told(0, 6) + 500), 500);
+        x = eightOff(false, "tire h");
+        e.is("not HELD now", x.life(0, x.told(0, 6) + 1), NONE);
     }
 
     private void dayRefused() {
