@@ -17,6 +17,7 @@ public final class RandomRunsTest {
     private Reference y;
     private Random lot;
     private int run;
+    private int made;
     private boolean failed;
 
     public static void main(String[] args) throws Exception {
@@ -29,47 +30,46 @@ public final class RandomRunsTest {
             x = new HumWire();
             y = new Reference();
             failed = false;
-            for (int made = 0; made < CALLS && !failed; ) {
-                made += step();
+            made = 0;
+            while (made < CALLS && !failed) {
+                step();
             }
         }
         due.end();
     }
 
-    /** One act by lot: how many calls it took. */
-    private int step() throws Exception {
+    /** One act by lot, of one call or of several. */
+    private void step() throws Exception {
         int r = lot.nextInt(100);
-        if (r < 12) {
+        if (r < 12 && run % 2 == 0) {
+            aText();
+        } else if (r < 12) {
             // every other run goes without texts, so that what holds without them is seen long enough
-            return run % 2 == 0 ? aText() : call(pick("tick", "by", "line", "day", "life", "harp", "feed"));
+            call(pick("tick", "by", "line", "day", "life", "harp", "feed"));
+        } else if (r < 14) {
+            lumpsNear();
+        } else if (r < 16) {
+            hoursTold();
+        } else if (r < 22) {
+            tonesMarked();
+        } else if (r < 40) {
+            call(pick("wire", "turns", "set", "tick", "run", "deal", "sheet", "mark", "lay"));
+        } else {
+            call(CALL_NAMES[lot.nextInt(CALL_NAMES.length)]);
         }
-        if (r < 14) {
-            return lumpsNear();
-        }
-        if (r < 16) {
-            return hoursTold();
-        }
-        if (r < 22) {
-            return tonesMarked();
-        }
-        if (r < 40) {
-            return call(pick("wire", "turns", "set", "tick", "run", "deal", "sheet", "mark", "lay"));
-        }
-        return call(CALL_NAMES[lot.nextInt(CALL_NAMES.length)]);
     }
 
     private String pick(String... names) {
         return names[lot.nextInt(names.length)];
     }
 
-    private int call(String name) throws Exception {
+    private void call(String name) throws Exception {
         Method method = method(HumWire.class, name);
         int[] args = new int[method.getParameterCount()];
         for (int i = 0; i < args.length; i++) {
             args[i] = argument(name, i);
         }
         both(name, args);
-        return 1;
     }
 
     private static Method method(Class<?> of, String name) {
@@ -81,14 +81,17 @@ public final class RandomRunsTest {
         throw new IllegalStateException(name);
     }
 
-    private int both(String name, int... args) throws Exception {
+    private void both(String name, int... args) throws Exception {
+        if (made == CALLS) {
+            return;
+        }
+        made++;
         int got = answer(x, method(HumWire.class, name), args);
         int want = answer(y, method(Reference.class, name), args);
         if (got != want) {
             failed = true;
         }
         due.is("run " + run + ": " + name + java.util.Arrays.toString(args), got, want);
-        return got;
     }
 
     private static int answer(Object on, Method method, int[] args) throws Exception {
@@ -153,7 +156,7 @@ public final class RandomRunsTest {
     }
 
     /** Feeds a text, at times a spoilt one, and has it read. */
-    private int aText() throws Exception {
+    private void aText() throws Exception {
         StringBuilder s = new StringBuilder(blanks(3));
         String key = pick("band", "push", "tire");
         s.append(key).append(lot.nextInt(20) == 0 ? "" : " ");
@@ -168,13 +171,11 @@ public final class RandomRunsTest {
             s.append(' ');
         }
         both("trim", 0);
-        int calls = 3;
-        for (int i = 0; i < s.length(); i += 12, calls++) {
+        for (int i = 0; i < s.length(); i += 12) {
             both("feed", Due.four(s, i), Due.four(s, i + 4), Due.four(s, i + 8));
         }
         both("trim", length);
         both("text");
-        return calls;
     }
 
     private String blanks(int oneIn) {
@@ -222,9 +223,10 @@ public final class RandomRunsTest {
     }
 
     /** Tells the hours of a wire by the image, at times with a slip, and has them checked. */
-    private int hoursTold() throws Exception {
+    private void hoursTold() throws Exception {
         if (y.image == null || y.image.wires.isEmpty()) {
-            return call("keep");
+            call("keep");
+            return;
         }
         int wire = lot.nextInt(y.image.wires.size());
         int n = 1 + lot.nextInt(lot.nextInt(6) == 0 ? 30 : 4);
@@ -237,25 +239,25 @@ public final class RandomRunsTest {
             both("tell", (k % 2 == 0 ? t.tone(w) : t.swing()) + (k == wrongAt ? 1 : 0));
         }
         both("check", wire, n);
-        return told + 1;
     }
 
     /** Asks for lumps about as many as a day with some loss takes. */
-    private int lumpsNear() throws Exception {
+    private void lumpsNear() throws Exception {
         if (y.world.wires.isEmpty()) {
-            return call("wire");
+            call("wire");
+            return;
         }
         int wire = lot.nextInt(y.world.wires.size());
         int tired = y.dayOf(y.world.wires.get(wire).withLoss(lot.nextInt(10)), 1);
         both("lumps", wire, Math.max(0, tired - lot.nextInt(2)));
         both("life", wire, tired);
-        return 2;
     }
 
     /** Marks some places of a sheet with the tones or eddies of a wire, and asks who was heard. */
-    private int tonesMarked() throws Exception {
+    private void tonesMarked() throws Exception {
         if (y.world.wires.isEmpty()) {
-            return call("wire");
+            call("wire");
+            return;
         }
         int sheet = lot.nextInt(4);
         int wire = lot.nextInt(y.world.wires.size());
@@ -270,6 +272,5 @@ public final class RandomRunsTest {
         both("mark", sheet, lot.nextInt(6), lot.nextBoolean() ? HumWire.NONE : 60);
         both("heard", sheet);
         both("reads", sheet, wire);
-        return 10;
     }
 }
