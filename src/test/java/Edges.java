@@ -18,6 +18,7 @@ final class Edges {
     private final Due due = new Due("EdgesTest");
     private final List<List<String>> words = new ArrayList<>();
     private String sentence = "";
+    private int sentences = 0;
     private int tried = 1;
 
     Edges() {
@@ -30,6 +31,7 @@ final class Edges {
     void says(int promise, String said) {
         endSentence();
         sentence = promise + " '" + said + "': ";
+        sentences++;
         tried = 0;
         also(promise, said);
     }
@@ -77,6 +79,7 @@ final class Edges {
 
     void end() throws Exception {
         endSentence();
+        System.out.println("EdgesTest: " + sentences + " tests, each named by words of the document");
         Path document = Path.of("../shared/DOC.md");
         if (Files.exists(document)) {
             compare(Files.readString(document));
