@@ -8,9 +8,12 @@ import java.util.Set;
 import java.util.TreeSet;
 import java.util.function.ToIntFunction;
 
-/** Tries what sentences of the document say, and keeps which words of it were tried; the terms are promise 0. */
+/**
+ * Tries what sentences of the document say, and keeps which words of it were tried. The terms and what stands at the
+ * document's head count as promises too, with numbers that no promise has.
+ */
 final class Edges {
-    static final int TERMS = 0;
+    static final int TERMS = 0, HEAD = 41;
     static final int MIN = Integer.MIN_VALUE, MAX = Integer.MAX_VALUE;
 
     private static final int PROMISES = 40;
@@ -22,7 +25,7 @@ final class Edges {
     private int tried = 1;
 
     Edges() {
-        for (int promise = 0; promise <= PROMISES; promise++) {
+        for (int promise = 0; promise <= HEAD; promise++) {
             words.add(new ArrayList<>());
         }
     }
@@ -93,8 +96,9 @@ final class Edges {
         }
     }
 
-    /** Each word of the terms and of each promise must have been tried. */
+    /** Each word of the head, of the terms and of each promise must have been tried. */
     private void compare(String document) {
+        compare(HEAD, document.substring(document.indexOf("## What it is") + 13, document.indexOf("## The public face")));
         String terms = document.substring(document.indexOf("## Terms") + 8, document.indexOf("Ahead of the calls"));
         compare(TERMS, terms.replaceAll("======== \\d|```text|```", " "));
         for (int promise = 1; promise <= PROMISES; promise++) {

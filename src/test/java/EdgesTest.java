@@ -2,6 +2,7 @@
 public final class EdgesTest {
     public static void main(String[] args) throws Exception {
         Edges edges = new Edges();
+        new HeadEdges(edges).all();
         new WiresEdges(edges).all();
         new TicksEdges(edges).all();
         new BestEdges(edges).all();
