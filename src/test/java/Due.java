@@ -16,6 +16,11 @@ final class Due {
         }
     }
 
+    /** Compares what is no number. */
+    void same(String what, Object got, Object want) {
+        is(what + ": " + got + ", and should be: " + want, got.equals(want) ? 1 : 0, 1);
+    }
+
     void end() {
         System.out.println(name + ": " + seen + " answers, " + wrong + " not as due");
         if (wrong != 0 || seen == 0) {

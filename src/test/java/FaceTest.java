@@ -40,14 +40,10 @@ public final class FaceTest {
         test.due.end();
     }
 
-    private void same(String what, Object got, Object want) {
-        due.is(what + " " + got + ", due is " + want, got.equals(want) ? 1 : 0, 1);
-    }
-
     private void theClass() {
-        same("the class", Modifier.toString(HumWire.class.getModifiers()), "public final");
-        same("its package", HumWire.class.getPackageName(), "");
-        same("above it", HumWire.class.getSuperclass(), Object.class);
+        due.same("the class", Modifier.toString(HumWire.class.getModifiers()), "public final");
+        due.same("its package", HumWire.class.getPackageName(), "");
+        due.same("above it", HumWire.class.getSuperclass(), Object.class);
         due.is("interfaces", HumWire.class.getInterfaces().length, 0);
         due.is("classes that can be seen", HumWire.class.getClasses().length, 0);
     }
@@ -57,8 +53,8 @@ public final class FaceTest {
         Matcher constant = Pattern.compile("([A-Z]+) = (-?\\d+)").matcher(face);
         while (constant.find()) {
             Field field = HumWire.class.getField(constant.group(1));
-            same(constant.group(1), Modifier.toString(field.getModifiers()), "public static final");
-            same(constant.group(1), field.getType(), int.class);
+            due.same(constant.group(1), Modifier.toString(field.getModifiers()), "public static final");
+            due.same(constant.group(1), field.getType(), int.class);
             due.is(constant.group(1), field.getInt(null), Long.parseLong(constant.group(2)));
             wanted.add(constant.group(1));
         }
@@ -92,7 +88,7 @@ public final class FaceTest {
                     + Arrays.toString(m.getParameterTypes()));
             }
         }
-        same("the methods", had, wanted);
+        due.same("the methods", had, wanted);
     }
 
     /** The methods of a text, by their heads, one behind the other. */
@@ -107,7 +103,7 @@ public final class FaceTest {
 
     /** The source has the face's lines in their order, with the same names of what is taken. */
     private void asWritten() {
-        same("the heads", heads(source), heads(face));
+        due.same("the heads", heads(source), heads(face));
         Matcher constants = Pattern.compile("public static final int .*;").matcher(face);
         due.is("the line of the constants", constants.find() && source.contains(constants.group()) ? 1 : 0, 1);
     }
@@ -119,7 +115,7 @@ public final class FaceTest {
         while (promise.find()) {
             promised.add("public " + promise.group(1));
         }
-        same("what is promised", promised, heads(face));
+        due.same("what is promised", promised, heads(face));
     }
 
     /** Ahead of its calls each group has its line, and behind it those calls alone. */
@@ -134,7 +130,7 @@ public final class FaceTest {
             for (String head : heads(source.substring(Math.max(0, from), to < 0 ? source.length() : to))) {
                 names.add("`" + head.substring("public int ".length(), head.indexOf('(')) + "`");
             }
-            same(group.group(2), String.join(", ", names), group.group(1));
+            due.same(group.group(2), String.join(", ", names), group.group(1));
             groups++;
         }
         due.is("groups of the document", groups, 6);

@@ -35,10 +35,6 @@ public final class ReadmeTest {
         test.due.end();
     }
 
-    private void same(String what, Object got, Object want) {
-        due.is(what + " is " + got + ", and should be " + want, got.equals(want) ? 1 : 0, 1);
-    }
-
     /** The cells of each row of every table whose head has that first cell. */
     private List<String[]> rows(String firstHead) {
         List<String[]> rows = new ArrayList<>();
@@ -73,7 +69,7 @@ public final class ReadmeTest {
         for (Field field : HumWire.class.getFields()) {
             had.add(field.getName());
         }
-        same("the constants", told, had);
+        due.same("the constants", told, had);
     }
 
     /** Each call has a row, in the order of the face, with its arguments by their names. */
@@ -89,7 +85,7 @@ public final class ReadmeTest {
         while (face.find()) {
             had.add(face.group(1).replace("int ", ""));
         }
-        same("the calls", told, had);
+        due.same("the calls", told, had);
     }
 
     /** The constants that open a clause, one behind the other. */
@@ -111,7 +107,7 @@ public final class ReadmeTest {
         for (String[] row : rows("call")) {
             int from = document.indexOf("`: ", document.indexOf("## Promise " + promise + ": ")) + 3;
             String promised = document.substring(from, document.indexOf("\n", from));
-            same("what " + row[0] + " is refused with", refusals(row[3]), refusals(promised));
+            due.same("what " + row[0] + " is refused with", refusals(row[3]), refusals(promised));
             promise++;
         }
     }
@@ -128,7 +124,7 @@ public final class ReadmeTest {
             Matcher example = Pattern.compile("`x\\.(\\w+)\\(([^)]*)\\)` is `?([-\\w]+)`?").matcher(row[4]);
             int seen = 0;
             while (example.find()) {
-                same("the example's call", example.group(1), name);
+                due.same("the example's call", example.group(1), name);
                 due.is(example.group(), called(x, example.group(1), example.group(2)), number(example.group(3)));
                 seen++;
             }
@@ -161,7 +157,7 @@ public final class ReadmeTest {
             files.map(file -> file.getFileName().toString()).filter(name -> name.endsWith("Test.java"))
                 .forEach(name -> had.add(name.replace(".java", "")));
         }
-        same("the tests", told, had);
+        due.same("the tests", told, had);
     }
 
     /** Every block of commands, in a folder that has the project and nothing more. */
@@ -228,7 +224,7 @@ public final class ReadmeTest {
         String output = new String(process.getInputStream().readAllBytes());
         due.is(commands + "prints " + output + "exit code", process.waitFor(), 0);
         if (printed != null) {
-            same("what " + commands + "prints", output, printed);
+            due.same("what " + commands + "prints", output, printed);
         }
     }
 }

@@ -14,7 +14,7 @@ public final class RoomTest {
     }
 
     private static long used() {
-        return ROOM.getThreadAllocatedBytes(Thread.currentThread().getId());
+        return ROOM.getCurrentThreadAllocatedBytes();
     }
 
     private static void measure(boolean counts) {
